@@ -54,6 +54,10 @@ public final class PlanMemo {
     private static final int[] WAY_ABOVE = {NONE, 0, 0, 0, 3, 3, 3, 0, 7, 7, 0, 0};
     private static final int[] READS_BODY = {10, 0, 0, 30, 0, 50, 0, 0, 80, 0, 0, 0};
     private static final int[] WORKS_BODY = {11, 0, 0, 31, 40, 0, 60, 70, 0, 0, 100, 0};
+    // By KIND of EXPRESSION: the first KIND of WAY it has, the others right behind it, and how many
+    // WAYS it can have: one, or two of each KIND, for the two PLACES at which it can be done.
+    private static final int[] FIRST_WAY_OF = {NONE, READ, NONE, SIEVE, HEAP, HASH, HASH};
+    private static final int[] SLOTS_OF = {0, 1, 0, 1, 4, 6, 6};
     private static final int PRICE_BODY = 12;
     private static final int SHIP_PRICE_BODY = 110;
     private static final int ALL_ALLOWED = 4095;
@@ -307,6 +311,7 @@ public final class PlanMemo {
             case 0:
                 return Long.bitCount(memo.members[root]);
             case 1:
+                sizes.refresh();
                 return sizes.rowsOf(root);
             case 2:
                 return memo.columnsOf(root);
@@ -398,7 +403,8 @@ public final class PlanMemo {
         if (!isOrder(order) || !isPlace(place)) {
             return refuseFar(WRONG);
         }
-        return orNone(costs.costOf(demandOf(memo.root(g), order, place), memo.allowed));
+        costs.prepare(memo.allowed);
+        return orNone(costs.costOf(demandOf(memo.root(g), order, place)));
     }
 
     public long costBy(int e, int order, int place) {
@@ -408,7 +414,10 @@ public final class PlanMemo {
         if (!isOrder(order) || !isPlace(place)) {
             return refuseFar(WRONG);
         }
-        return orNone(costs.cheapestBy(e, demandOf(memo.home[e], order, place), memo.allowed));
+        int demand = demandOf(memo.home[e], order, place);
+        costs.prepare(memo.allowed);
+        costs.costOf(demand);
+        return orNone(costs.cheapestBy(e, demand));
     }
 
     public int demands(int g, int order, int place) {
@@ -416,7 +425,8 @@ public final class PlanMemo {
         if (refusal != 0) {
             return refuse(refusal);
         }
-        return costs.demandedBy(demandOf(memo.root(g), order, place), memo.allowed);
+        costs.prepare(memo.allowed);
+        return costs.demandedBy(demandOf(memo.root(g), order, place));
     }
 
     public int within(int g, int order, int place) {
@@ -424,7 +434,10 @@ public final class PlanMemo {
         if (refusal != 0) {
             return refuse(refusal);
         }
-        return costs.atMostThatOf(demandOf(memo.root(g), order, place), memo.allowed);
+        int demand = demandOf(memo.root(g), order, place);
+        costs.prepare(memo.allowed);
+        long most = costs.costOf(demand);
+        return most > MOST_COST ? 0 : costs.demandedWithin(demand, most);
     }
 
     public int where(int g, int order) {
@@ -436,8 +449,9 @@ public final class PlanMemo {
         }
         int best = NONE;
         long least = NO_COST;
+        costs.prepare(memo.allowed);
         for (int place = 0; place <= ONE_PLACE; place++) {
-            long cost = costs.costOf(demandOf(memo.root(g), order, place), memo.allowed);
+            long cost = costs.costOf(demandOf(memo.root(g), order, place));
             if (cost < least) {
                 least = cost;
                 best = place;
@@ -454,8 +468,10 @@ public final class PlanMemo {
             return refuseFar(WRONG);
         }
         int demand = demandOf(memo.root(g), order, place);
-        long now = costs.costOf(demand, memo.allowed);
-        long then = costs.costOf(demand, memo.allowed & ~(1 << kind));
+        costs.prepare(memo.allowed);
+        long now = costs.costOf(demand);
+        costs.prepare(memo.allowed & ~(1 << kind));
+        long then = costs.costOf(demand);
         return now > MOST_COST || then > MOST_COST ? NONE : then - now;
     }
 
@@ -467,7 +483,8 @@ public final class PlanMemo {
             return refuse(refusal);
         }
         int demand = demandOf(memo.root(g), order, place);
-        if (costs.costOf(demand, memo.allowed) > MOST_COST) {
+        costs.prepare(memo.allowed);
+        if (costs.costOf(demand) > MOST_COST) {
             return refuse(BEYOND);
         }
         if (!spare.make(costs, demand)) {
@@ -1274,18 +1291,16 @@ public final class PlanMemo {
             this.memo = memo;
         }
 
+        /** The ROWS of a GROUP as of the latest refresh(); 0 of what is none. */
         int rowsOf(int g) {
-            if (!memo.isGroup(g)) {
-                return 0;
-            }
-            if (version != memo.version) {
-                countRows();
-                version = memo.version;
-            }
-            return rows[g];
+            return memo.isGroup(g) ? rows[g] : 0;
         }
 
-        private void countRows() {
+        void refresh() {
+            if (version == memo.version) {
+                return;
+            }
+            version = memo.version;
             Arrays.fill(rows, 0);
             // The least number of a GROUP is below those of all that have it as x or y,
             // so x and y are counted ahead of the EXPRESSION that tells the ROWS.
@@ -1303,7 +1318,7 @@ public final class PlanMemo {
             if (kind == SCAN) {
                 return memo.factOfTable(own, 0);
             }
-            long a = counted(memo.left[e]);
+            long a = rowsOf(memo.left[e]);
             if (kind == KEEP) {
                 return own % 2 == 0 ? a / 10 : a / 2;
             }
@@ -1311,12 +1326,8 @@ public final class PlanMemo {
             if (kind == TALLY) {
                 return Math.min(a, distinct);
             }
-            long joined = Math.min(MOST_ROWS, Math.max(1, a * counted(memo.right[e]) / distinct));
+            long joined = Math.min(MOST_ROWS, Math.max(1, a * rowsOf(memo.right[e]) / distinct));
             return kind == HALF ? Math.min(a, joined) : joined;
-        }
-
-        private long counted(int g) {
-            return memo.isGroup(g) ? rows[g] : 0;
         }
 
         int treesOf(int g, int levels) {
@@ -1458,6 +1469,7 @@ public final class PlanMemo {
         }
 
         void reckonPrices() {
+            sizes.refresh();
             for (int x = 0; x < memo.expressions; x++) {
                 if (!memo.isGone(x)) {
                     reckonPricesOf(x);
@@ -1474,36 +1486,9 @@ public final class PlanMemo {
             int r = sizes.rowsOf(memo.home[x]);
             int a = memo.kind[x] == SCAN ? r : sizes.rowsOf(memo.left[x]);
             int b = sizes.rowsOf(memo.right[x]);
-            int lowest = lowestKindOf(memo.kind[x]);
-            int kinds = kindsOf(memo.kind[x]);
-            for (int i = 0; i < kinds; i++) {
-                pricesOfExpressions[x * PRICES + i] = bodies.priceBy(lowest + i, a, b, r);
-            }
-        }
-
-        /** The first KIND of WAY for a KIND of EXPRESSION; the others come right behind it. */
-        private static int lowestKindOf(int kindOfExpression) {
-            switch (kindOfExpression) {
-                case SCAN:
-                    return READ;
-                case KEEP:
-                    return SIEVE;
-                case TALLY:
-                    return HEAP;
-                default:
-                    return HASH;
-            }
-        }
-
-        private static int kindsOf(int kindOfExpression) {
-            switch (kindOfExpression) {
-                case SCAN:
-                case KEEP:
-                    return 1;
-                case TALLY:
-                    return 2;
-                default:
-                    return PRICES;
+            int kindOfX = memo.kind[x];
+            for (int i = 0; i < (SLOTS_OF[kindOfX] + 1) / 2; i++) {
+                pricesOfExpressions[x * PRICES + i] = bodies.priceBy(FIRST_WAY_OF[kindOfX] + i, a, b, r);
             }
         }
 
@@ -1517,31 +1502,20 @@ public final class PlanMemo {
 
         /** Tells the next WAY; whether there is one. */
         boolean advance() {
-            for (int i = 0; i < EXPRESSIONS && e < memo.expressions; i++) {
-                if (advanceIn(e)) {
-                    return true;
-                }
-                e = memo.memberFrom(group, e + 1);
-                slot = 0;
-            }
-            while (slot < 2) {
+            for (int i = 0; i < BOUND; i++) {
                 int s = slot;
                 slot++;
-                if (s == 0 ? offersSort() : offersShip()) {
-                    return true;
-                }
-            }
-            return false;
-        }
-
-        /** Tells the next WAY by an EXPRESSION; whether there is one. */
-        private boolean advanceIn(int x) {
-            int kinds = kindsOf(memo.kind[x]);
-            int slots = kinds == 1 ? 1 : kinds * 2;
-            while (slot < slots) {
-                int s = slot;
-                slot++;
-                if (slots == 1 ? offersSingle(x) : offersAt(x, s)) {
+                if (e >= memo.expressions) {
+                    if (s > 1) {
+                        return false;
+                    }
+                    if (s == 0 ? offersSort() : offersShip()) {
+                        return true;
+                    }
+                } else if (s >= SLOTS_OF[memo.kind[e]]) {
+                    e = memo.memberFrom(group, e + 1);
+                    slot = 0;
+                } else if (memo.kind[e] == SCAN || memo.kind[e] == KEEP ? offersSingle() : offersAt(s)) {
                     return true;
                 }
             }
@@ -1552,35 +1526,35 @@ public final class PlanMemo {
             return (allowed >> k & 1) == 1;
         }
 
-        private boolean offersSingle(int x) {
-            int own = memo.own[x];
+        private boolean offersSingle() {
+            int own = memo.own[e];
             at = NONE;
             second = NONE;
-            price = pricesOfExpressions[x * PRICES];
-            if (memo.kind[x] == SCAN) {
+            price = pricesOfExpressions[e * PRICES];
+            if (memo.kind[e] == SCAN) {
                 kind = READ;
                 first = NONE;
                 return isAllowed(READ)
                     && meets(memo.factOfTable(own, 2), order) && meets(memo.factOfTable(own, 3), place);
             }
             kind = SIEVE;
-            first = demandOf(memo.left[x], order, place);
+            first = demandOf(memo.left[e], order, place);
             return isAllowed(SIEVE);
         }
 
         /** A PAIR or SUM: by each KIND, at PLACE c, then with all in one. */
-        private boolean offersAt(int x, int s) {
-            int c = memo.own[x];
-            kind = lowestKindOf(memo.kind[x]) + s / 2;
+        private boolean offersAt(int s) {
+            int c = memo.own[e];
+            kind = FIRST_WAY_OF[memo.kind[e]] + s / 2;
             at = s % 2 == 0 ? c : ONE_PLACE;
             boolean unordered = kind == HASH || kind == HEAP;
             boolean ordered = !unordered && kind != LOOP;
             if (!isAllowed(kind) || !meets(at, place) || unordered && order != NONE || ordered && !meets(c, order)) {
                 return false;
             }
-            first = demandOf(memo.left[x], ordered ? c : order, at);
-            second = memo.right[x] == NONE ? NONE : demandOf(memo.right[x], ordered ? c : NONE, at);
-            price = pricesOfExpressions[x * PRICES + s / 2];
+            first = demandOf(memo.left[e], ordered ? c : order, at);
+            second = memo.right[e] == NONE ? NONE : demandOf(memo.right[e], ordered ? c : NONE, at);
+            price = pricesOfExpressions[e * PRICES + s / 2];
             return true;
         }
 
@@ -1634,16 +1608,8 @@ public final class PlanMemo {
             this.ways = new Ways(memo, sizes);
         }
 
-        long costOf(int demand, int allowed) {
-            prepare(allowed);
-            if (least[demand] == UNKNOWN) {
-                listUnknown(demand);
-                lowerAll();
-            }
-            return least[demand];
-        }
-
-        private void prepare(int allowed) {
+        /** Forgets what isn't so any more, by what has changed or by what is ALLOWED. */
+        void prepare(int allowed) {
             if (version == memo.version && ways.allowed == allowed) {
                 return;
             }
@@ -1653,6 +1619,15 @@ public final class PlanMemo {
             Arrays.fill(least, UNKNOWN);
             version = memo.version;
             ways.allowed = allowed;
+        }
+
+        /** The COST of a DEMAND as of the latest prepare(); NO_COST if there is none. */
+        long costOf(int demand) {
+            if (least[demand] == UNKNOWN) {
+                listUnknown(demand);
+                lowerAll();
+            }
+            return least[demand];
         }
 
         /** Lists what is DEMANDED by one, but for what is known. */
@@ -1715,8 +1690,8 @@ public final class PlanMemo {
             return least[demand] == UNKNOWN ? NO_COST : least[demand];
         }
 
-        long cheapestBy(int e, int demand, int allowed) {
-            costOf(demand, allowed);
+        /** The least by one EXPRESSION, for a DEMAND whose COST is known. */
+        long cheapestBy(int e, int demand) {
             long cheapest = NO_COST;
             ways.beginAll(demand);
             for (int w = 0; w < Ways.BOUND && ways.advance(); w++) {
@@ -1739,8 +1714,7 @@ public final class PlanMemo {
         }
 
         /** How many DEMANDS are DEMANDED by one; they are listed. */
-        int demandedBy(int demand, int allowed) {
-            prepare(allowed);
+        int demandedBy(int demand) {
             Arrays.fill(marked, (byte) 0);
             listed = 0;
             listIfUnmarked(demand);
@@ -1762,15 +1736,12 @@ public final class PlanMemo {
             }
         }
 
-        int atMostThatOf(int demand, int allowed) {
-            long bound = costOf(demand, allowed);
-            if (bound > MOST_COST) {
-                return 0;
-            }
-            int demanded = demandedBy(demand, allowed);
+        /** Of how many of what is DEMANDED by one, whose COST is known, the COST is at most some. */
+        int demandedWithin(int demand, long most) {
+            int demanded = demandedBy(demand);
             int count = 0;
             for (int i = 0; i < demanded; i++) {
-                if (least[list[i]] <= bound) {
+                if (least[list[i]] <= most) {
                     count++;
                 }
             }

@@ -581,6 +581,16 @@ public final class PromiseTests {
         // With f 5 it is not: v is GROUP 0.
         firing(m, 5, 0, NONE, 1);
         due("COLUMNS of what was TOLD in between", m.group(5, 2), 7);
+
+        // Neither e nor f is a HALF.
+        PlanMemo h = withScan();
+        h.half(0, 0, 0);
+        h.join(0, 1, 0);
+        h.half(0, 2, 0);
+        due("explore", h.explore(1), 1);
+        firing(h, 4, 0, NONE, 1);
+        due("explore", h.explore(9), 1);
+        firing(h, NONE, NONE, NONE, NONE);
     }
 
     private static void sinking() {
@@ -1032,6 +1042,25 @@ public final class PromiseTests {
         due("SCAN 0", e.planAt(0, 1), 0);
         due("GROUP", e.planAt(0, 2), 0);
         due("costBy the other", e.costBy(1, NONE, 4), 1000);
+        // Of PLACES that cost the same c, ahead of 4.
+        PlanMemo p = new PlanMemo();
+        p.table(1000, 15, NONE, 4);
+        p.table(1000, 15, NONE, 2);
+        p.scan(0);
+        p.scan(1);
+        p.same(0, 1);
+        p.join(2, 0, 0);
+        p.tally(2, 0);
+        p.plan(2, NONE, NONE);
+        due("PAIR at c", p.planAt(0, 5), 2);
+        due("its input READS what is parted", p.planAt(1, 1), 1);
+        p.plan(3, NONE, NONE);
+        due("SUM at c", p.planAt(0, 5), 2);
+        due("where: the first", p.where(0, NONE), 2);
+        due("COST ahead of same()", p.cost(2, NONE, 1), 15000 + 30000);
+        p.table(10, 15, NONE, 1);
+        p.same(0, p.scan(2));
+        due("COST behind it", p.cost(0, NONE, 1), 1000);
     }
 
     private static void treesCounted() {
