@@ -14,6 +14,7 @@ import java.util.Set;
  */
 public final class ModelTests {
     private static final int NONE = -1;
+    private static final int EYES = 4;
 
     // ---- the model's WAYS: BODIES as methods that the language itself chooses
 
@@ -1063,7 +1064,7 @@ public final class ModelTests {
     // ---- runs by draws
 
     private final Random random;
-    private final PlanMemo x = new PlanMemo();
+    private final Counted x = new Counted();
     private final Model m = new Model();
     private final StringBuilder run = new StringBuilder();
     private boolean wrong = false;
@@ -1190,12 +1191,7 @@ public final class ModelTests {
             }
             case 21: {
                 due("plan" + demand, x.plan(g, o, at), m.plan(g, o, at));
-                for (int i = 0; i <= m.plan.size(); i++) {
-                    for (int what = 0; what <= 8; what++) {
-                        due("planAt(" + i + ", " + what + ")", x.planAt(i, what), m.planAt(i, what));
-                    }
-                    due("planCost(" + i + ")", x.planCost(i), m.planCost(i));
-                }
+                seeNode(random);
                 break;
             }
             case 22: {
@@ -1246,33 +1242,54 @@ public final class ModelTests {
         }
     }
 
-    private void all() {
-        for (int what = -1; what < 20; what++) due("status(" + what + ")", x.status(what), m.status(what));
-        for (int e = 0; e < m.s.all.size(); e++) {
-            for (int what = 0; what < 6; what++) {
+    private void seeNode(Random draws) {
+        int i = draws.nextInt(m.plan.size() + 1);
+        int what = draws.nextInt(9);
+        due("planAt(" + i + ", " + what + ")", x.planAt(i, what), m.planAt(i, what));
+        due("planCost(" + i + ")", x.planCost(i), m.planCost(i));
+    }
+
+    /** One more answer of what there is, by draws of their own. */
+    private void see(Random draws) {
+        int e = draws.nextInt(m.s.all.size() + 1);
+        int g = draws.nextInt(m.s.into.size() + 1);
+        int what = draws.nextInt(6);
+        switch (draws.nextInt(8)) {
+            case 0: case 1: case 2:
                 due("expression(" + e + ", " + what + ")", x.expression(e, what), m.expression(e, what));
-            }
-        }
-        for (int g = 0; g < m.s.into.size(); g++) {
-            due("groupOf(" + g + ")", x.groupOf(g), m.groupOf(g));
-            for (int what = 0; what < 5; what++) {
+                break;
+            case 3: case 4:
                 due("group(" + g + ", " + what + ")", x.group(g, what), m.group(g, what));
+                break;
+            case 5:
+                due("groupOf(" + g + ")", x.groupOf(g), m.groupOf(g));
+                break;
+            case 6: {
+                int of = draws.nextInt(20) - 1;
+                due("status(" + of + ")", x.status(of), m.status(of));
+                break;
             }
-        }
-        for (int what = 0; what < 4; what++) due("next(" + what + ")", x.next(what), m.next(what));
-        for (int s = 0; s < 8; s++) {
-            due("holds(" + s + ")", x.holds(s), m.holds(s));
-            for (int i = 0; i < 12; i++) due("element(" + s + ", " + i + ")", x.element(s, i), m.element(s, i));
+            default: {
+                int s = draws.nextInt(8);
+                int i = draws.nextInt(16);
+                due("holds(" + s + ")", x.holds(s), m.holds(s));
+                due("element(" + s + ", " + i + ")", x.element(s, i), m.element(s, i));
+                due("next(" + what + ")", x.next(what), m.next(what));
+                seeNode(draws);
+                break;
+            }
         }
     }
 
-    private boolean fits(int calls, int[] kinds) {
+    /** So many calls by draws, or some more, then the rest of the object's 512 to see what there is. */
+    private boolean fits(int calls, int[] kinds, Random eyes) {
         for (int i = 0; i < 3; i++) call(0);
-        for (int i = 0; i < calls && !wrong; i++) {
+        while (x.calls() < calls && !wrong) {
             call(kinds[random.nextInt(kinds.length)]);
-            if (i % 20 == 19) all();
         }
-        all();
+        while (x.callsLeft() > 5 && !wrong) {
+            see(eyes);
+        }
         return !wrong;
     }
 
@@ -1283,13 +1300,17 @@ public final class ModelTests {
         int[] telling = {1, 1, 2, 2, 2, 3, 4, 4, 5, 5, 7, 11, 11, 12, 25, 6};
         int[] costing = {1, 1, 2, 3, 4, 4, 5, 5, 7, 11, 14, 15, 15, 16, 17, 18, 19, 20, 21, 22, 29, 23};
         int[][] mixes = {every, telling, costing};
-        int runs = args.length > 0 ? Integer.parseInt(args[0]) : 60;
+        int runs = args.length > 0 ? Integer.parseInt(args[0]) : 90;
         int first = args.length > 1 ? Integer.parseInt(args[1]) : 0;
         for (int seed = first; seed < first + runs; seed++) {
             int[] kinds = mixes[seed % mixes.length];
-            if (!new ModelTests(seed).fits(kinds == every ? 200 : 60, kinds)) {
-                System.out.println("run of seed " + seed + " is not as the model's, kinds " + Arrays.toString(kinds));
-                System.exit(1);
+            int calls = 60 + seed * 37 % 260;
+            // The same calls again and again, so that all that there is then can be seen.
+            for (int eyes = 0; eyes < EYES; eyes++) {
+                if (!new ModelTests(seed).fits(calls, kinds, new Random(eyes))) {
+                    System.out.println("run of seed " + seed + " is not as the model's, kinds " + Arrays.toString(kinds));
+                    System.exit(1);
+                }
             }
         }
         System.out.println(runs + " runs are as the model's");

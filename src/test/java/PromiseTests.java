@@ -13,36 +13,16 @@ public final class PromiseTests {
     }
 
     /** What status() tells of what ("11" to "17": REFUSALS) before and after calls that are refused. */
-    private static void refused(PlanMemo m, int number, int times) {
+    private static void refused(Counted m, int number, int times) {
         due("status(" + (10 + number) + ")", m.status(10 + number), times);
     }
 
-    private static void text(PlanMemo m, int s, int sort, String letters) {
-        m.row(s, sort, letters.length());
-        for (int i = 0; i < letters.length(); i++) {
-            m.set(s, i, letters.charAt(i));
-        }
-    }
-
-    private static int read(PlanMemo m, String letters) {
-        text(m, 7, 0, letters);
-        return m.read(7);
-    }
-
-    private static void fault(PlanMemo m, String letters, int place) {
-        due("read of '" + letters + "'", read(m, letters), -6);
+    private static void fault(Counted m, String letters, int place) {
+        due("read of '" + letters + "'", m.read(letters), -6);
         due("fault of '" + letters + "'", m.fault(), place);
     }
 
-    private static String letters(PlanMemo m, int s, int n) {
-        StringBuilder text = new StringBuilder();
-        for (int i = 0; i < n; i++) {
-            text.append((char) m.element(s, i));
-        }
-        return text.toString();
-    }
-
-    private static void expression(PlanMemo m, int e, int kind, int own, int x, int y, int g) {
+    private static void expression(Counted m, int e, int kind, int own, int x, int y, int g) {
         due("expression(" + e + ", 0)", m.expression(e, 0), kind);
         due("expression(" + e + ", 1)", m.expression(e, 1), own);
         due("expression(" + e + ", 2)", m.expression(e, 2), x);
@@ -51,21 +31,21 @@ public final class PromiseTests {
         due("expression(" + e + ", 5)", m.expression(e, 5), g == NONE ? 1 : 0);
     }
 
-    private static void firing(PlanMemo m, int e, int rule, int f, int room) {
+    private static void firing(Counted m, int e, int rule, int f, int room) {
         due("next(0)", m.next(0), e);
         due("next(1)", m.next(1), rule);
         due("next(2)", m.next(2), f);
         due("next(3)", m.next(3), room);
     }
 
-    private static void node(PlanMemo m, int i, int[] facts, long cost) {
+    private static void node(Counted m, int i, int[] facts, long cost) {
         for (int what = 0; what < facts.length; what++) {
             due("planAt(" + i + ", " + what + ")", m.planAt(i, what), facts[what]);
         }
         due("planCost(" + i + ")", m.planCost(i), cost);
     }
 
-    private static void traced(PlanMemo m, int... bodies) {
+    private static void traced(Counted m, int... bodies) {
         for (int i = 0; i < bodies.length; i++) {
             due("trace(" + i + ")", m.trace(i), bodies[i]);
         }
@@ -74,8 +54,8 @@ public final class PromiseTests {
     }
 
     /** A table of 1000 rows and all COLUMNS, no ORDER, all in one; then its SCAN, GROUP 0. */
-    private static PlanMemo withScan() {
-        PlanMemo m = new PlanMemo();
+    private static Counted withScan() {
+        Counted m = new Counted();
         m.table(1000, 15, NONE, 4);
         m.scan(0);
         return m;
@@ -83,7 +63,7 @@ public final class PromiseTests {
 
     private static void newObject() {
         due("NONE", PlanMemo.NONE, -1);
-        PlanMemo m = new PlanMemo();
+        Counted m = new Counted();
         for (int what = 0; what <= 9; what++) {
             due("status(" + what + ") at first", m.status(what), what == 5 ? 1 : what == 7 ? 4095 : 0);
         }
@@ -104,7 +84,7 @@ public final class PromiseTests {
     }
 
     private static void rows() {
-        PlanMemo m = new PlanMemo();
+        Counted m = new Counted();
         due("row", m.row(0, 0, 160), 1);
         due("row of none", m.row(7, 3, 0), 1);
         due("holds bytes", m.holds(0), 100);
@@ -146,7 +126,7 @@ public final class PromiseTests {
     }
 
     private static void copies() {
-        PlanMemo m = withScan();
+        Counted m = withScan();
         m.row(0, 1, 5);
         m.row(1, 1, 3);
         m.row(2, 2, 3);
@@ -182,7 +162,7 @@ public final class PromiseTests {
     }
 
     private static void shown() {
-        PlanMemo m = withScan();
+        Counted m = withScan();
         m.table(10, 15, NONE, 4);
         due("half", m.half(1, 0, m.scan(1)), 2);
         due("join", m.join(2, 0, 1), 3);
@@ -224,7 +204,7 @@ public final class PromiseTests {
         due("holds", m.holds(6), 1);
 
         // KEEP 0 of KEEP 1 becomes ALIKE to KEEP 0 of the SCAN, and is GONE.
-        PlanMemo g = withScan();
+        Counted g = withScan();
         g.keep(1, 0);
         g.keep(0, 0);
         g.keep(0, 1);
@@ -238,7 +218,7 @@ public final class PromiseTests {
     }
 
     private static void tables() {
-        PlanMemo m = new PlanMemo();
+        Counted m = new Counted();
         due("table", m.table(1, 1, 0, 0), 0);
         due("table", m.table(1_000_000, 15, NONE, 4), 1);
         int[][] facts = {{1, 1, 0, 0}, {1_000_000, 15, NONE, 4}};
@@ -276,7 +256,7 @@ public final class PromiseTests {
     }
 
     private static void toldOnes() {
-        PlanMemo m = new PlanMemo();
+        Counted m = new Counted();
         m.table(1000, 3, NONE, 4);
         m.table(50, 6, NONE, 4);
         due("scan", m.scan(1), 0);
@@ -333,7 +313,7 @@ public final class PromiseTests {
     }
 
     private static void groupsTold() {
-        PlanMemo m = new PlanMemo();
+        Counted m = new Counted();
         m.table(1000, 15, NONE, 4);
         m.table(30, 3, NONE, 4);
         m.distinct(0, 7);
@@ -366,7 +346,7 @@ public final class PromiseTests {
     }
 
     private static void merging() {
-        PlanMemo m = withScan();
+        Counted m = withScan();
         m.table(20, 15, NONE, 4);
         m.scan(1);
         m.keep(0, 0);
@@ -406,7 +386,7 @@ public final class PromiseTests {
         due("the next GROUP", m.keep(1, 5), 8);
 
         // A GROUP in itself: the SCAN and what it is kept by.
-        PlanMemo c = withScan();
+        Counted c = withScan();
         c.keep(0, 0);
         c.keep(0, 1);
         due("same", c.same(0, 1), 0);
@@ -419,12 +399,17 @@ public final class PromiseTests {
         due("trees of five levels", c.trees(0, 5), 5);
     }
 
-    private static void texts() {
-        PlanMemo m = new PlanMemo();
+    private static Counted twoTables() {
+        Counted m = new Counted();
         m.table(1000, 3, NONE, 4);
         m.table(50, 6, NONE, 4);
+        return m;
+    }
+
+    private static void texts() {
+        Counted m = twoTables();
         due("fault at first", m.fault(), NONE);
-        due("read", read(m, "half 1(keep 1(scan 0),tally 1(join 1(scan 0,scan 1)))"), 5);
+        due("read", m.read("half 1(keep 1(scan 0),tally 1(join 1(scan 0,scan 1)))"), 5);
         due("no FAULT", m.fault(), NONE);
         expression(m, 0, 1, 0, NONE, NONE, 0);
         expression(m, 1, 3, 1, 0, NONE, 1);
@@ -432,41 +417,42 @@ public final class PromiseTests {
         expression(m, 3, 5, 1, 0, 2, 3);
         expression(m, 4, 4, 1, 3, NONE, 4);
         expression(m, 5, 6, 1, 1, 4, 5);
-        due("read again", read(m, "half 1(keep 1(scan 0),tally 1(join 1(scan 0,scan 1)))"), 5);
+        due("read again", m.read("half 1(keep 1(scan 0),tally 1(join 1(scan 0,scan 1)))"), 5);
         due("nothing new", m.status(1), 6);
-        fault(m, "", 0);
-        fault(m, "x", 0);
-        fault(m, "scan", 4);
-        fault(m, "scan ", 5);
-        fault(m, "scan 2", 5);
-        fault(m, "scan x", 5);
-        fault(m, "scan  0", 5);
-        fault(m, "scan 00", 6);
-        fault(m, "scan 0 ", 6);
-        fault(m, "scin 0", 2);
-        fault(m, "Scan 0", 0);
-        fault(m, " scan 0", 0);
-        fault(m, "keep 8(scan 0)", 5);
-        fault(m, "keep 1", 6);
-        fault(m, "keep 1 (scan 0)", 6);
-        fault(m, "keep 1()", 7);
-        fault(m, "keep 1(scan 0", 13);
-        fault(m, "keep 1(scan 0,", 13);
-        fault(m, "keep 1(scan 0))", 14);
-        fault(m, "tally 4(scan 0)", 6);
-        fault(m, "join 1(scan 0)", 13);
-        fault(m, "join 1(scan 0,scan 1", 20);
-        fault(m, "join 1(scan 0,scan 1,", 20);
-        fault(m, "join 1(scan 0,", 14);
-        fault(m, "keep 4(scan 0)", 0);
-        fault(m, "keep 4(scan 0)x", 0);
-        fault(m, "keep 4(scan 0x", 13);
-        fault(m, "join 1(scan 0,keep 0(scan 1))", 14);
-        fault(m, "join 0(scan 0,scan 1)", 0);
-        fault(m, "tally 0(tally 1(scan 0))", 0);
+        fault(twoTables(), "", 0);
+        fault(twoTables(), "x", 0);
+        fault(twoTables(), "scan", 4);
+        fault(twoTables(), "scan ", 5);
+        fault(twoTables(), "scan 2", 5);
+        fault(twoTables(), "scan x", 5);
+        fault(twoTables(), "scan  0", 5);
+        fault(twoTables(), "scan 00", 6);
+        fault(twoTables(), "scan 0 ", 6);
+        fault(twoTables(), "scin 0", 2);
+        fault(twoTables(), "Scan 0", 0);
+        fault(twoTables(), " scan 0", 0);
+        fault(twoTables(), "keep 8(scan 0)", 5);
+        fault(twoTables(), "keep 1", 6);
+        fault(twoTables(), "keep 1 (scan 0)", 6);
+        fault(twoTables(), "keep 1()", 7);
+        fault(twoTables(), "keep 1(scan 0", 13);
+        fault(twoTables(), "keep 1(scan 0,", 13);
+        fault(twoTables(), "keep 1(scan 0))", 14);
+        fault(twoTables(), "tally 4(scan 0)", 6);
+        fault(twoTables(), "join 1(scan 0)", 13);
+        fault(twoTables(), "join 1(scan 0,scan 1", 20);
+        fault(twoTables(), "join 1(scan 0,scan 1,", 20);
+        fault(twoTables(), "join 1(scan 0,", 14);
+        fault(twoTables(), "keep 4(scan 0)", 0);
+        fault(twoTables(), "keep 4(scan 0)x", 0);
+        fault(twoTables(), "keep 4(scan 0x", 13);
+        fault(twoTables(), "join 1(scan 0,keep 0(scan 1))", 14);
+        fault(twoTables(), "join 0(scan 0,scan 1)", 0);
+        fault(twoTables(), "tally 0(tally 1(scan 0))", 0);
+        fault(twoTables(), "half 1(scan 1,tally 3(scan 1))", 14);
         fault(m, "half 1(scan 1,tally 3(scan 1))", 14);
         due("nothing new", m.status(1), 6);
-        due("refused reads", m.status(16), 31);
+        due("refused reads", m.status(16), 1);
         m.show(6, 0);
         due("read -1", m.read(8), -1);
         due("read -1", m.read(-1), -1);
@@ -474,12 +460,12 @@ public final class PromiseTests {
         due("read -3", m.read(5), -3);
         due("the FAULT is as it was", m.fault(), 14);
         for (int sort = 1; sort < 4; sort++) {
-            text(m, 4, sort, "scan 1");
+            m.text(4, sort, "scan 1");
             m.set(4, 5, '1' + (1L << 40));
             due("read of SORT " + sort, m.read(4), 2);
         }
         due("the FAULT is gone", m.fault(), NONE);
-        text(m, 4, 2, "scan 1");
+        m.text(4, 2, "scan 1");
         m.set(4, 5, '1' + 256);
         due("an int is not cut to a letter", m.read(4), -6);
         due("its FAULT", m.fault(), 5);
@@ -489,14 +475,14 @@ public final class PromiseTests {
             deep.append("keep ").append(i % 2).append('(');
         }
         String open = deep.toString() + "scan 0";
-        due("deepest", read(m, open + ")".repeat(19)), 24);
-        fault(m, open + ")".repeat(18), open.length() + 18);
-        fault(m, "keep 0(".repeat(22), 154);
+        due("deepest", twoTables().read(open + ")".repeat(19)), 19);
+        fault(twoTables(), open + ")".repeat(18), open.length() + 18);
+        fault(twoTables(), "keep 0(".repeat(22), 154);
     }
 
     /** EXPRESSIONS up to a number, all KEEPS in a chain from GROUP 0. */
-    private static PlanMemo chain(int expressions) {
-        PlanMemo m = withScan();
+    private static Counted chain(int expressions) {
+        Counted m = withScan();
         for (int e = 1; e < expressions; e++) {
             m.keep(e % 2, e - 1);
         }
@@ -504,13 +490,13 @@ public final class PromiseTests {
     }
 
     private static void room() {
-        PlanMemo m = chain(62);
+        Counted m = chain(62);
         m.table(9, 15, NONE, 4);
-        due("read -7", read(m, "join 0(scan 1,keep 7(scan 1))"), -7);
+        due("read -7", m.read("join 0(scan 1,keep 7(scan 1))"), -7);
         due("nothing of it", m.status(1), 62);
         due("nothing of it", m.status(9), 62);
         due("no FAULT", m.fault(), NONE);
-        due("the same twice is new once", read(m, "join 0(scan 1,scan 1)"), 63);
+        due("the same twice is new once", m.read("join 0(scan 1,scan 1)"), 63);
         due("scan that is there", m.scan(1), 62);
         due("keep that is there", m.keep(1, 0), 1);
         due("keep -7", m.keep(7, 0), -7);
@@ -520,15 +506,15 @@ public final class PromiseTests {
         due("half -7", m.half(0, 0, 0), -7);
         m.table(9, 15, NONE, 4);
         due("scan -7", m.scan(2), -7);
-        due("read of what is there", read(m, "keep 0(keep 1(scan 0))"), 2);
-        due("read -7", read(m, "keep 7(scan 0)"), -7);
+        due("read of what is there", m.read("keep 0(keep 1(scan 0))"), 2);
+        due("read -7", m.read("keep 7(scan 0)"), -7);
         refused(m, 7, 7);
         due("deal without room", m.deal(20), 0);
         due("full", m.status(1), 64);
     }
 
     private static void turning() {
-        PlanMemo m = withScan();
+        Counted m = withScan();
         m.join(0, 0, 0);
         firing(m, 1, 0, NONE, 1);
         due("explore", m.explore(200), 1);
@@ -537,7 +523,7 @@ public final class PromiseTests {
         firing(m, NONE, NONE, NONE, NONE);
         due("never again", m.explore(1), 0);
 
-        PlanMemo t = withScan();
+        Counted t = withScan();
         t.table(9, 15, NONE, 4);
         t.scan(1);
         t.join(2, 0, 1);
@@ -557,7 +543,7 @@ public final class PromiseTests {
     }
 
     private static void leaning() {
-        PlanMemo m = new PlanMemo();
+        Counted m = new Counted();
         m.table(10, 3, NONE, 4);
         m.table(20, 7, NONE, 4);
         m.table(30, 4, NONE, 4);
@@ -583,7 +569,7 @@ public final class PromiseTests {
         due("COLUMNS of what was TOLD in between", m.group(5, 2), 7);
 
         // Neither e nor f is a HALF.
-        PlanMemo h = withScan();
+        Counted h = withScan();
         h.half(0, 0, 0);
         h.join(0, 1, 0);
         h.half(0, 2, 0);
@@ -594,7 +580,7 @@ public final class PromiseTests {
     }
 
     private static void sinking() {
-        PlanMemo m = new PlanMemo();
+        Counted m = new Counted();
         m.table(10, 3, NONE, 4);
         m.table(20, 6, NONE, 4);
         m.scan(0);
@@ -620,7 +606,7 @@ public final class PromiseTests {
     }
 
     private static void passing() {
-        PlanMemo m = withScan();
+        Counted m = withScan();
         m.keep(2, 0);
         m.keep(5, 1);
         firing(m, 2, 3, 1, 1);
@@ -632,7 +618,7 @@ public final class PromiseTests {
         due("explore", m.explore(9), 1);
         due("what comes of it was there", m.status(1), 5);
 
-        PlanMemo o = withScan();
+        Counted o = withScan();
         o.keep(2, 0);
         o.keep(2, 1);
         o.keep(2, 2);
@@ -646,7 +632,7 @@ public final class PromiseTests {
         due("explore", o.explore(9), 1);
         due("fired ONCE", o.fired(4), 2);
 
-        PlanMemo t = withScan();
+        Counted t = withScan();
         t.tally(3, 0);
         t.tally(3, 1);
         firing(t, 2, 4, 1, 1);
@@ -655,7 +641,7 @@ public final class PromiseTests {
     }
 
     private static void underAndSwap() {
-        PlanMemo m = withScan();
+        Counted m = withScan();
         m.keep(6, 0);
         m.keep(2, 0);
         m.tally(3, 1);
@@ -667,7 +653,7 @@ public final class PromiseTests {
         due("fired UNDER", m.fired(5), 1);
         firing(m, NONE, NONE, NONE, NONE);
 
-        PlanMemo s = withScan();
+        Counted s = withScan();
         s.table(9, 15, NONE, 4);
         s.table(8, 15, NONE, 4);
         s.scan(1);
@@ -685,7 +671,7 @@ public final class PromiseTests {
     }
 
     private static void withoutRoom() {
-        PlanMemo m = new PlanMemo();
+        Counted m = new Counted();
         m.table(10, 15, NONE, 4);
         m.scan(0);
         m.keep(0, 0);
@@ -701,7 +687,7 @@ public final class PromiseTests {
         firing(m, 2, 3, 1, 0);
         due("explore ends ahead of it", m.explore(5), 0);
 
-        PlanMemo h = new PlanMemo();
+        Counted h = new Counted();
         h.table(10, 15, NONE, 4);
         h.scan(0);
         h.keep(0, 0);
@@ -720,7 +706,7 @@ public final class PromiseTests {
     }
 
     private static void priced() {
-        PlanMemo m = new PlanMemo();
+        Counted m = new Counted();
         long[] prices = {7, 7, 7, 15, 18, 17, 71, 12, 19, 12, 28, 21};
         int[][] bodies = {{12, 10, 11}, {12, 10, 11}, {12, 10, 11}, {12, 30, 10, 31, 11}, {12, 30, 10, 40, 31, 11},
             {12, 50, 30, 10, 31, 11}, {12, 30, 10, 60, 31, 11}, {12, 10, 70, 11}, {12, 80, 10, 70, 11},
@@ -754,7 +740,7 @@ public final class PromiseTests {
     }
 
     private static void allowing() {
-        PlanMemo m = new PlanMemo();
+        Counted m = new Counted();
         int[] ownKinds = {1, 2, 4, 5, 6, 8, 9, 10, 11};
         int bits = 4095;
         for (int kind : ownKinds) {
@@ -778,8 +764,8 @@ public final class PromiseTests {
     }
 
     /** GROUP 2 is SCAN 0 (1000 ROWS, ORDER 0, all in one) joined by COLUMN 1 with SCAN 1 (50, parted by 1). */
-    private static PlanMemo joined() {
-        PlanMemo m = new PlanMemo();
+    private static Counted joined() {
+        Counted m = new Counted();
         m.table(1000, 3, 0, 4);
         m.table(50, 6, NONE, 1);
         m.scan(0);
@@ -789,7 +775,7 @@ public final class PromiseTests {
     }
 
     private static void costsOfScans() {
-        PlanMemo m = joined();
+        Counted m = joined();
         due("any", m.cost(0, NONE, NONE), 1000);
         due("its ORDER", m.cost(0, 0, NONE), 1000);
         due("its PLACE", m.cost(0, NONE, 4), 1000);
@@ -825,7 +811,7 @@ public final class PromiseTests {
     }
 
     private static void costsOfJoins() {
-        PlanMemo m = joined();
+        Counted m = joined();
         due("ROWS", m.group(2, 1), 500);
         // HASH at 4: 1050 reads, 500 + 50 works; inputs 1000, 200.
         due("cost", m.cost(2, NONE, NONE), 2800);
@@ -883,7 +869,7 @@ public final class PromiseTests {
     }
 
     private static void costsOfOthers() {
-        PlanMemo m = withScan();
+        Counted m = withScan();
         m.keep(0, 0);
         m.tally(2, 1);
         m.distinct(2, 40);
@@ -904,7 +890,7 @@ public final class PromiseTests {
         due("another PLACE", m.cost(2, NONE, 0), NONE);
 
         // Above 1,000,000,000,000 there is none: without any other PAIR two LOOPS of a million times a million.
-        PlanMemo d = new PlanMemo();
+        Counted d = new Counted();
         d.table(1_000_000, 15, NONE, 4);
         d.scan(0);
         d.distinct(0, 1_000_000);
@@ -939,7 +925,7 @@ public final class PromiseTests {
     }
 
     private static void plans() {
-        PlanMemo m = joined();
+        Counted m = joined();
         m.half(1, 2, 1);
         m.tally(1, 3);
         due("plan -1", m.plan(5, 9, 9), -1);
@@ -963,7 +949,7 @@ public final class PromiseTests {
         due("planAt -5", m.planAt(0, -1), -5);
         due("planCost -5", m.planCost(5), -5);
         due("spell", m.spell(0), 21);
-        due("letters", letters(m, 0, 22).equals("join 1(scan 0,scan 1)\0") ? 1 : 0, 1);
+        due("letters", m.letters(0, 22).equals("join 1(scan 0,scan 1)\0") ? 1 : 0, 1);
         due("a PLAN refused leaves it", m.plan(4, 0, NONE), -5);
         due("status(6)", m.status(6), 5);
         m.allow(1, false);
@@ -974,7 +960,7 @@ public final class PromiseTests {
         due("of a HALF", m.planAt(1, 7) + m.planAt(2, 7), 1);
         String all = "tally 1(half 1(join 1(scan 0,scan 1),scan 1))";
         due("spell", m.spell(0), all.length());
-        due("letters", letters(m, 0, all.length()).equals(all) ? 1 : 0, 1);
+        due("letters", m.letters(0, all.length()).equals(all) ? 1 : 0, 1);
         m.row(1, 3, all.length() - 1);
         due("spell -7", m.spell(1), -7);
         due("nothing is put", m.element(1, 0), 0);
@@ -986,7 +972,7 @@ public final class PromiseTests {
         due("spell -3", m.spell(3), -3);
 
         // 1 + 2 + 4 .. : JOINS of JOINS, 127 NODES at seven levels.
-        PlanMemo w = new PlanMemo();
+        Counted w = new Counted();
         w.table(1, 1, 0, 4);
         w.scan(0);
         for (int g = 0; g < 6; g++) {
@@ -1014,7 +1000,7 @@ public final class PromiseTests {
 
     private static void theWay() {
         // HASH and MERGE cost the same of one ROW each: HASH comes first, and PLACE c ahead of 4.
-        PlanMemo m = new PlanMemo();
+        Counted m = new Counted();
         m.table(1, 1, 0, 0);
         m.scan(0);
         m.join(0, 0, 0);
@@ -1033,7 +1019,7 @@ public final class PromiseTests {
         // 2 reads, 1 ROW, 1 work; inputs 1 + SHIP 3 + SORT 2, 1 + SHIP 3.
         due("LOOP at 4", m.costBy(1, 0, 4), 14);
         // Of EXPRESSIONS that cost the same the one of least number.
-        PlanMemo e = withScan();
+        Counted e = withScan();
         e.table(1000, 15, NONE, 4);
         e.scan(1);
         e.same(0, 1);
@@ -1043,7 +1029,7 @@ public final class PromiseTests {
         due("GROUP", e.planAt(0, 2), 0);
         due("costBy the other", e.costBy(1, NONE, 4), 1000);
         // Of PLACES that cost the same c, ahead of 4.
-        PlanMemo p = new PlanMemo();
+        Counted p = new Counted();
         p.table(1000, 15, NONE, 4);
         p.table(1000, 15, NONE, 2);
         p.scan(0);
@@ -1064,7 +1050,7 @@ public final class PromiseTests {
     }
 
     private static void treesCounted() {
-        PlanMemo m = withScan();
+        Counted m = withScan();
         m.table(9, 15, NONE, 4);
         m.scan(1);
         m.join(0, 0, 1);
@@ -1081,7 +1067,7 @@ public final class PromiseTests {
         due("trees -6", m.trees(0, -1), -6);
         due("trees -6", m.trees(0, 13), -6);
         // GROUP 0 with JOINS of itself: 1, 1 + 1, 1 + 4, 1 + 25, 1 + 676, ..
-        PlanMemo c = withScan();
+        Counted c = withScan();
         c.join(0, 0, 0);
         c.same(0, 1);
         long trees = 0;
@@ -1093,7 +1079,7 @@ public final class PromiseTests {
     }
 
     private static void dealsAndSeed() {
-        PlanMemo m = new PlanMemo();
+        Counted m = new Counted();
         due("deal -5", m.deal(0), -5);
         due("seed", m.seed(7), 1);
         due("seed", m.seed(-7), 7);
@@ -1137,7 +1123,7 @@ public final class PromiseTests {
     }
 
     private static void images() {
-        PlanMemo m = withScan();
+        Counted m = withScan();
         due("restore -6", m.restore(), -6);
         m.keep(0, 0);
         m.keep(2, 1);
@@ -1189,7 +1175,7 @@ public final class PromiseTests {
     }
 
     private static void goneOnesCount() {
-        PlanMemo m = withScan();
+        Counted m = withScan();
         m.keep(1, 0);
         m.keep(0, 0);
         m.keep(0, 1);
