@@ -412,6 +412,104 @@ final class CostBoundaries {
         Check.due("shipped above it", dear(9).cost(4, NONE, 1), NONE);
     }
 
+    private static long[] asked(Counted m) {
+        return new long[] {m.cost(2, NONE, NONE), m.cost(2, 1, 3), m.costBy(2, NONE, 4), m.demands(2, NONE, NONE),
+            m.within(2, NONE, NONE), m.where(2, NONE), m.worth(2, NONE, NONE, HASH), m.plan(2, 0, NONE), m.group(2, 1)};
+    }
+
+    @Sentence(in = "3. DEMANDS", says = "A PLAN of a DEMAND: a WAY of it and PLANS of its inputs, to an end; "
+        + "its COST: the PRICE of the WAY and the COSTS of these, together.")
+    static void costs_asked_again_behind_each_change() {
+        // What is answered behind a change is what an object answers that was never asked ahead of it.
+        Check.Make make = () -> {
+            Counted m = new Counted();
+            m.table(1000, 15, NONE, 4);
+            m.table(50, 15, 1, 1);
+            m.table(5, 15, 0, 0);
+            m.scan(0);
+            m.scan(1);
+            m.join(1, 0, 1);
+            m.keep(0, 2);
+            m.scan(2);
+            m.image();
+            m.distinct(1, 60);
+            return m;
+        };
+        Check.Call[] changes = {m -> m.distinct(1, 7), m -> m.same(2, 4), m -> m.same(0, 4), m -> m.explore(1), m -> m.explore(200),
+            m -> m.allow(HASH, false), m -> m.allow(SHIP, false), m -> m.restore(), m -> m.same(2, m.half(0, 4, 1)),
+            m -> m.same(0, 3), m -> m.deal(20), m -> m.read(7), m -> m.table(9, 1, 0, 0), m -> m.worth(2, NONE, NONE, 6),
+            m -> m.join(1, 4, 4), m -> m.keep(0, 2)};
+        for (int i = 0; i < changes.length; i++) {
+            Counted one = make.get();
+            Counted other = make.get();
+            asked(one);
+            changes[i].on(one);
+            changes[i].on(other);
+            long[] first = asked(one);
+            long[] second = asked(other);
+            for (int k = 0; k < first.length; k++) {
+                Check.due("answer " + k + " behind change " + i, first[k], second[k]);
+            }
+            Check.due("ROWS of a GROUP that is new", one.group(one.keep(7, 0), 1), other.group(other.keep(7, 0), 1));
+            Check.due("COST of it", one.cost(one.status(9) - 1, NONE, NONE), other.cost(other.status(9) - 1, NONE, NONE));
+        }
+        Counted m = make.get();
+        Check.due("ROWS", m.group(2, 1), 1000 * 50 / 60);
+        m.distinct(1, 100);
+        Check.due("ROWS then", m.group(2, 1), 500);
+        m.same(2, 4);
+        Check.due("by READ", m.cost(2, NONE, 0), 500);
+        m.restore();
+        Check.due("ROWS as restored", m.group(2, 1), 500);
+        Check.due("not by READ", m.cost(2, NONE, 0) > 500, true);
+        m.same(0, 4);
+        Check.due("by READ", m.cost(0, NONE, 0), 1000);
+    }
+
+    @Sentence(in = "Terms", says = "64 at most")
+    static void costs_of_the_64th() {
+        // The 64th EXPRESSION has WAYS as any other, and SORT and SHIP behind them.
+        Counted keep = Check.chain(62);
+        keep.keep(0, 0);
+        int last = keep.keep(3, 0);
+        Check.due("the 64th", last, 63);
+        Check.due("cost", keep.cost(63, NONE, NONE), 2000);
+        Check.due("sorted", keep.cost(63, 2, NONE), 2000 + 500 + 500 * 9);
+        Check.due("shipped", keep.cost(63, NONE, 2), 2000 + 1500);
+        Check.due("costBy", keep.costBy(63, NONE, 4), 2000);
+        Check.due("demands", keep.demands(63, 2, 2), 3 + 3);
+        Check.due("plan", keep.plan(63, 2, 2), 4);
+        Check.due("SORT, SHIP", keep.planAt(0, 0) * 100 + keep.planAt(1, 0), 1011);
+        Check.due("of no HALF", keep.planAt(0, 7) + keep.planAt(1, 7), 0);
+        Check.due("trees", keep.trees(63, 2), 1);
+        Check.due("users", keep.group(0, 4), 3);
+        for (int kind = 5; kind <= 6; kind++) {
+            Counted pair = Check.chain(63);
+            Check.due("the 64th", kind == 5 ? pair.join(0, 0, 0) : pair.half(0, 0, 0), 63);
+            Check.due("cost", pair.cost(63, NONE, NONE), kind == 5 ? 2000 + 10_000 + 1000 + 2000 : 2000 + 1000 + 1000 + 2000);
+            Check.due("plan", pair.plan(63, 0, NONE) > 2, true);
+        }
+        Counted tally = Check.chain(63);
+        tally.tally(0, 0);
+        Check.due("cost", tally.cost(63, NONE, NONE), 2000 + 100 + 1000);
+        Check.due("sorted", tally.cost(63, 0, NONE), 3100 + 100 + 700);
+        // The 64th in the GROUP of others.
+        Counted in = Check.chain(63);
+        in.half(0, 0, 0);
+        in.same(63, 0);
+        Check.due("how many", in.group(0, 0), 2);
+        Check.due("cost", in.cost(0, NONE, NONE), 1000);
+        Check.due("sorted", in.cost(0, 2, NONE), 1000 + 11_000);
+        Check.due("costBy the 64th", in.costBy(63, NONE, NONE), 2000 + 1000 + 1000 + 2000);
+        // What was the next one's KIND ahead of restore() tells nothing of a SORT or a SHIP.
+        Counted back = Check.scanned();
+        back.image();
+        back.half(0, 0, 0);
+        back.restore();
+        Check.due("plan", back.plan(0, 1, 1), 3);
+        Check.due("of no HALF", back.planAt(0, 7) + back.planAt(1, 7) + back.planAt(2, 7), 0);
+    }
+
     @Sentence(in = "3. DEMANDS", says = "THE WAY of it: the first whose PRICE and the COSTS of whose inputs are that together.")
     static void the_way_is_the_first() {
         Counted m = eight(0, ALLOWABLE);
@@ -435,6 +533,25 @@ final class CostBoundaries {
         m.plan(2, NONE, NONE);
         Check.due("MERGE is cheaper", m.planAt(0, 0), MERGE);
         Check.due("at a COST one less", m.planCost(0), 46);
+        // Of the second EXPRESSION of a GROUP, the cheaper one, c comes ahead of 4 too.
+        for (int kind : new int[] {HASH, MERGE, LOOP}) {
+            Counted second = new Counted();
+            second.table(80, 15, 0, 0);
+            second.table(8, 15, 0, 0);
+            second.table(8, 15, 0, 4);
+            second.scan(0);
+            second.scan(1);
+            second.scan(2);
+            second.same(1, 2);
+            second.same(second.half(0, 0, 0), second.half(0, 1, 1));
+            Check.only(second, READ, kind);
+            second.plan(3, NONE, NONE);
+            Check.due("its NODES", second.status(6), 3);
+            Check.due("the second", second.planAt(1, 2), 1);
+            Check.due("at c", second.planAt(0, 5), 0);
+            second.plan(3, NONE, 4);
+            Check.due("at 4", second.planAt(0, 5), 4);
+        }
         // EXPRESSIONS that cost as much: that of least number, though its KIND of WAY comes later.
         Counted two = unordered(HASH, HEAP);
         two.half(0, 0, 0);
@@ -443,6 +560,104 @@ final class CostBoundaries {
         Check.due("the JOIN", two.planAt(0, 7), 0);
         two.distinct(0, 100);
         Check.due("EXPRESSION by costBy", two.costBy(3, NONE, NONE), two.costBy(1, NONE, NONE));
+    }
+
+    /** GROUP 0 of 8 ROWS, read by SCANS of these ORDERS and PLACES. */
+    private static Counted readAt(int... ordersAndPlaces) {
+        Counted m = new Counted();
+        for (int i = 0; i < ordersAndPlaces.length; i += 2) {
+            int t = m.table(8, 15, ordersAndPlaces[i], ordersAndPlaces[i + 1]);
+            m.same(0, m.scan(t));
+        }
+        return m;
+    }
+
+    private static void theWay(Counted m, int g, int order, int place, long cost, int kind, int at) {
+        Check.due("cost", m.cost(g, order, place), cost);
+        m.plan(g, order, place);
+        Check.due("KIND of THE WAY", m.planAt(0, 0), kind);
+        Check.due("its PLACE", m.planAt(0, 5), at);
+    }
+
+    @Sentence(in = "3. DEMANDS", says = "The WAYS of a DEMAND, in this order: by each EXPRESSION of the GROUP, by numbers:")
+    static void ways_that_cost_as_much_in_their_order() {
+        // HASH at 4 and MERGE at c, HASH at c one more: x costs 8 at 4 and 9 at c, MERGE one less than HASH.
+        Counted hash = readAt(NONE, 4);
+        hash.table(4, 15, 0, 0);
+        hash.same(0, hash.keep(3, hash.keep(0, hash.scan(1))));
+        hash.table(8, 15, 0, 4);
+        hash.table(8, 15, 0, 0);
+        int y = hash.same(hash.scan(2), hash.scan(3));
+        hash.distinct(0, 9);
+        int join = hash.join(0, 0, y);
+        Check.due("x at c", hash.cost(0, 0, 0), 9);
+        theWay(hash, join, NONE, NONE, 47, HASH, 4);
+        hash.allow(HASH, false);
+        theWay(hash, join, NONE, NONE, 47, MERGE, 0);
+        // MERGE at 4 and LOOP at c: with DISTINCT 1 the JOIN has 64 ROWS.
+        Counted merge = readAt(NONE, 0, 0, 4);
+        merge.distinct(0, 1);
+        int pair = merge.join(0, 0, 0);
+        merge.allow(HASH, false);
+        theWay(merge, pair, NONE, NONE, 16 + 64 + 64 + 16, MERGE, 4);
+        merge.allow(MERGE, false);
+        theWay(merge, pair, NONE, NONE, 16 + 64 + 64 + 16, LOOP, 0);
+        // LOOP at c and at 4.
+        Counted loop = readAt(NONE, 4, NONE, 0);
+        int looped = loop.join(0, 0, 0);
+        Check.only(loop, READ, LOOP);
+        theWay(loop, looped, NONE, NONE, 16 + 1 + 64 + 16, LOOP, 0);
+        // HEAP at 4 and STREAM at c: x costs 8 at 4 and 16 at c.
+        Counted heap = readAt(NONE, 4);
+        heap.table(8, 15, 0, 0);
+        heap.same(0, heap.keep(3, heap.scan(1)));
+        int tally = heap.tally(0, 0);
+        Check.due("x at c", heap.cost(0, 0, 0), 16);
+        theWay(heap, tally, NONE, NONE, 24 + 8, HEAP, 4);
+        heap.allow(HEAP, false);
+        theWay(heap, tally, NONE, NONE, 24 + 8, STREAM, 0);
+        // STREAM at c and at 4, HEAP at c and at 4.
+        for (int kind : new int[] {HEAP, STREAM}) {
+            Counted both = readAt(0, 4, 0, 0);
+            int sum = both.tally(0, 0);
+            Check.only(both, READ, kind);
+            theWay(both, sum, NONE, NONE, kind == HEAP ? 32 : 24, kind, 0);
+        }
+    }
+
+    @Sentence(in = "3. DEMANDS", says = "Behind all EXPRESSIONS: SORT")
+    static void sort_and_ship_behind_all_expressions() {
+        // MERGE with a SORT of y, and a SORT of the HASH: 8 ROWS each.
+        Counted m = readAt(0, 4);
+        m.table(8, 15, NONE, 4);
+        m.scan(1);
+        m.distinct(0, 8);
+        int join = m.join(0, 0, 1);
+        theWay(m, join, 0, 4, 32 + 16 + 40, MERGE, 4);
+        m.allow(MERGE, false);
+        theWay(m, join, 0, 4, 32 + 8 + 8 + 40, SORT, NONE);
+        // HASH at c of what is shipped, and a SHIP of the HASH: 16 ROWS of 8 and 8.
+        Counted s = readAt(NONE, 4);
+        s.distinct(0, 4);
+        int pair = s.join(0, 0, 0);
+        theWay(s, pair, NONE, 0, 16 + 24 + 2 * 32, HASH, 0);
+        s.allow(LOOP, false);
+        s.allow(MERGE, false);
+        Check.due("by SHIP as much", s.cost(pair, NONE, 4) + 48, 16 + 24 + 2 * 32);
+        // An EXPRESSION of greater number, that of a SCAN, comes ahead of SORT too.
+        Counted e = readAt(NONE, 4, 1, 4);
+        theWay(e, 0, 1, 4, 8, READ, NONE);
+        theWay(e, 0, 2, 4, 48, SORT, NONE);
+    }
+
+    @Sentence(in = "3. DEMANDS", says = "All KINDS are ALLOWED at first.")
+    static void all_kinds_are_allowed_at_first() {
+        for (int kind : ALLOWABLE) {
+            Counted m = new Counted();
+            Check.due("allow(" + kind + ") at first", m.allow(kind, false), 1);
+            Check.due("then", m.allow(kind, true), 0);
+            Check.due("as at first", m.status(7), 4095);
+        }
     }
 
     @Sentence(in = "3. DEMANDS", says = "DEMANDED by one: itself and the inputs of all WAYS of what is DEMANDED.")

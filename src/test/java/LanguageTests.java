@@ -29,12 +29,19 @@ public final class LanguageTests {
         "int within(int,int,int)", "int where(int,int)", "long worth(int,int,int,int)", "int plan(int,int,int)",
         "int planAt(int,int)", "long planCost(int)", "int spell(int)", "int trees(int,int)", "long price(int,int,int,int)",
         "int trace(int)", "int deal(int)", "int seed(int)", "int image()", "int restore()", "int status(int)"));
+    // Rules 2 to 6, 9, 10 and 13: what no line of the program may have, as far as it can be seen line by line.
     private static final String[] FORBIDDEN = {
-        "\\bthrow\\b", "\\btry\\b", "\\bcatch\\b", "\\bsynchronized\\b", "\\bassert\\b", "->", "::", "\\bvar\\b",
-        "\\bprotected\\b", "\\bstrictfp\\b", "\\bnative\\b", "\\btransient\\b", "\\bvolatile\\b", "\\bfloat\\b",
-        "\\bdouble\\b", "\\bObject\\b", "\\bSystem\\.(?!arraycopy)", "\\bArrays\\.(?!fill)", "\\bLong\\.(?!bitCount)",
-        "\\bMath\\.(?!min|max)", "\\bstatic\\s*\\{", "@", "^import (?!java\\.util\\.Arrays;)", "^package\\b",
-        "\\bfor \\(;;\\)", "\\bwhile \\(true\\)"};
+        "\\b(throw|throws|try|catch|finally|synchronized|assert)\\b", "(?<!case [\\w, ]{1,40}|default) ->", "::", "\\bvar\\b",
+        "\\b(protected|strictfp|native|transient|volatile)\\b", "\\b(Object|Long|Short|Byte|Character|Boolean|Double|Float)\\b(?!\\.)",
+        "\\bSystem\\.(?!arraycopy\\b)", "\\bArrays\\.(?!(fill|copyOf|copyOfRange)\\b)",
+        "\\bMath\\.(?!(abs|max|min|floorDiv|floorMod)\\b)", "\\bInteger\\.(?!(compare|max|min|bitCount|MAX_VALUE|MIN_VALUE)\\b)",
+        "\\bLong\\.(?!(compare|max|min|bitCount|MAX_VALUE|MIN_VALUE)\\b)", "\\bList\\.(?!of\\b)",
+        "\\b(Character|Boolean|Thread|Runtime|Class|Random|Scanner|Collections|Objects|Optional|Stream|Map|Set|HashMap|HashSet)\\b",
+        "\\bstatic\\s*\\{", "@", "^import (?!java\\.util\\.(ArrayList|Arrays|List|Iterator);)", "^package\\b", "\\bfor \\(;;\\)",
+        "\\bwhile \\(true\\)", "\"\\s*\\+|\\+\\s*\"", "\\bnew \\w+(<\\w*>)?\\([^)]*\\) \\{", "\\.(hashCode|toString|getClass)\\("};
+    private static final int MOST_OBJECTS = 600_000;
+    private static final long MOST_ELEMENTS = 7_300_000;
+    private static final int RUNS = 5;
     private static int wrong = 0;
 
     private static void must(boolean holds, String what) {
@@ -138,28 +145,65 @@ public final class LanguageTests {
         }
     }
 
-    /** Counts the objects, arrays, fields and elements that one object holds on to. */
+    /**
+     * All that the calls of one run make lives in one room, what the library makes too. An object takes
+     * 16 bytes at least, a field or element one: as long as a run makes fewer bytes than there may be of
+     * elements, it makes neither too many objects nor too many elements.
+     */
     private static void room() throws IllegalAccessException {
         Map<Object, Boolean> seen = new IdentityHashMap<>();
-        PlanMemo m = new PlanMemo();
-        long elements = walk(m, seen);
-        must(seen.size() <= 100, "a new object is of at most 100 objects and arrays: " + seen.size());
-        must(elements <= 14_000, "and of at most 14,000 fields and elements: " + elements);
-        m.table(10, 15, NONE, 4);
-        m.scan(0);
-        m.keep(0, 0);
-        m.keep(2, 1);
-        m.join(0, 2, 2);
-        m.explore(200);
-        m.image();
-        m.cost(3, 0, 0);
-        m.plan(3, 0, 0);
-        Map<Object, Boolean> then = new IdentityHashMap<>();
-        walk(m, then);
-        must(then.keySet().equals(seen.keySet()), "calls make nothing that is kept");
+        long elements = walk(new PlanMemo(), seen);
+        must(seen.size() <= MOST_OBJECTS / 20, "a run can have some objects: one is of " + seen.size());
+        must(elements <= MOST_ELEMENTS / 20, "a run can have some objects: one is of " + elements + " elements");
+        java.lang.management.ThreadMXBean plain = java.lang.management.ManagementFactory.getThreadMXBean();
+        if (!(plain instanceof com.sun.management.ThreadMXBean)) {
+            return;
+        }
+        com.sun.management.ThreadMXBean bean = (com.sun.management.ThreadMXBean) plain;
+        for (int run = 0; run < RUNS; run++) {
+            dearestCalls(run);
+            long ahead = bean.getThreadAllocatedBytes(Thread.currentThread().getId());
+            dearestCalls(run);
+            long bytes = bean.getThreadAllocatedBytes(Thread.currentThread().getId()) - ahead;
+            must(bytes < MOST_ELEMENTS, "512 calls of run " + run + " have room: " + bytes + " bytes");
+        }
     }
 
-    private static final int NONE = PlanMemo.NONE;
+    /** 512 calls of the dearest kinds, on an object that is as full as can be. */
+    private static void dearestCalls(int run) {
+        PlanMemo m = new PlanMemo();
+        m.table(1000, 15, 0, 4);
+        m.scan(0);
+        for (int e = 1; e < 64; e++) {
+            m.join(e % 4, e - 1, 0);
+        }
+        m.image();
+        m.row(0, 0, 160);
+        for (int i = 0; i < 220; i++) {
+            switch (run) {
+                case 0:
+                    m.distinct(0, 1 + i);
+                    m.worth(63, 0, 0, 4);
+                    break;
+                case 1:
+                    m.explore(200);
+                    m.restore();
+                    break;
+                case 2:
+                    m.plan(6, i % 4, i % 5);
+                    m.spell(0);
+                    break;
+                case 3:
+                    m.read(0);
+                    m.within(63, 0, 0);
+                    break;
+                default:
+                    m.deal(20);
+                    m.trees(63, 12);
+                    break;
+            }
+        }
+    }
 
     private static long walk(Object o, Map<Object, Boolean> seen) throws IllegalAccessException {
         if (o == null || seen.put(o, true) != null) {

@@ -118,6 +118,54 @@ final class PlanBoundaries {
         }
     }
 
+    /** A JOIN of 63 NODES and a tower of SIEVES: the last NODES have one input each. */
+    private static Counted towered(int nodes) {
+        Counted m = new Counted();
+        m.table(1, 1, 0, 4);
+        int g = m.scan(0);
+        for (int there = 1; there < 63; there = there * 2 + 1) {
+            g = m.join(0, g, g);
+        }
+        int tower = 0;
+        for (int there = 1; there < nodes - 64; there++) {
+            tower = m.keep(there % 2, tower);
+        }
+        m.join(0, g, tower);
+        return m;
+    }
+
+    /** SIEVES above JOINS whose second inputs go on: NODES wait for none but the last. */
+    private static Counted toTheRight(int nodes) {
+        Counted m = new Counted();
+        m.table(1, 1, 0, 4);
+        int one = m.scan(0);
+        int g = one;
+        int there = 1;
+        for (; there + 2 <= nodes; there += 2) {
+            g = m.join(0, one, g);
+        }
+        for (; there < nodes; there++) {
+            g = m.keep(0, g);
+        }
+        return m;
+    }
+
+    @Sentence(in = "3. DEMANDS", says = "120 at most. What it tells")
+    static void a_hundred_and_twenty_nodes_of_any_shape() {
+        for (int nodes = 116; nodes <= 124; nodes++) {
+            // The tower of 123 is one of 65 EXPRESSIONS.
+            for (int shape = nodes > 122 ? 1 : 0; shape < 2; shape++) {
+                Counted m = shape == 0 ? towered(nodes) : toTheRight(nodes);
+                String of = "plan of " + nodes + ", shape " + shape;
+                Check.due(of, m.plan(m.status(9) - 1, NONE, NONE), nodes <= 120 ? nodes : -7);
+                Check.due(of + ", NODES", m.status(6), nodes <= 120 ? nodes : 0);
+                Check.due(of + ", the first", m.planAt(0, 6), nodes <= 120 ? nodes : -5);
+                Check.due(of + ", the last", m.planAt(nodes - 1, 0), nodes <= 120 ? 1 : -5);
+                Check.due(of + ", ahead of it", m.planAt(nodes - 2, 0), nodes > 120 ? -5 : shape == 0 ? 2 : 1);
+            }
+        }
+    }
+
     @Sentence(in = "3. DEMANDS", says = "What it tells stays as it was when it was made.")
     static void what_it_tells_stays() {
         Check.Call[] changes = {m -> m.same(0, m.keep(0, 0)), m -> m.explore(200), m -> m.distinct(1, 7), m -> m.allow(4, false),
@@ -228,6 +276,60 @@ final class PlanBoundaries {
             return m;
         }, 0, 119, (m, i) -> m.planAt(i, 6), -5);
         Check.refused("no PLAN", PlanBoundaries::joined, m -> m.planAt(0, 0), -5);
+    }
+
+    @Sentence(in = "Promise 34", says = "0 KIND of WAY, 1 t, p or c, or the ORDER of a SORT, the PLACE of a SHIP, 2 GROUP, "
+        + "3 ORDER, 4 PLACE of its DEMAND")
+    static void facts_of_each_kind_of_way() {
+        Check.Make make = () -> {
+            Counted m = new Counted();
+            m.table(1, 1, NONE, 4);
+            m.table(1000, 15, 0, 4);
+            m.scan(1);
+            m.keep(5, 0);
+            m.tally(2, 1);
+            m.tally(0, 1);
+            m.join(0, 0, 1);
+            m.half(3, 1, 0);
+            return m;
+        };
+        int[] read = {1, 1, 0, 0, 4, NONE, 1, 0};
+        int[] sieve = {2, 5, 1, 0, 4, NONE, 2, 0};
+        Counted one = make.get();
+        Check.only(one, 1, 2);
+        Check.due("plan", one.plan(1, 0, 4), 2);
+        node(one, 0, 2000, sieve);
+        node(one, 1, 1000, read);
+        Counted heap = make.get();
+        Check.only(heap, 1, 2, 8);
+        Check.due("plan", heap.plan(2, NONE, NONE), 3);
+        node(heap, 0, 1000 + 100 + 2000, 8, 2, 2, NONE, NONE, 4, 3, 0);
+        node(heap, 1, 2000, 2, 5, 1, NONE, 4, NONE, 2, 0);
+        Counted stream = make.get();
+        Check.only(stream, 1, 2, 9);
+        Check.due("plan", stream.plan(3, 0, NONE), 3);
+        node(stream, 0, 500 + 100 + 2000, 9, 0, 3, 0, NONE, 4, 3, 0);
+        node(stream, 1, 2000, sieve);
+        Counted merge = make.get();
+        Check.only(merge, 1, 2, 5);
+        Check.due("plan", merge.plan(4, 0, 4), 4);
+        node(merge, 0, 1500 + 5000 + 5000 + 3000, 5, 0, 4, 0, 4, 4, 4, 0);
+        node(merge, 1, 1000, read);
+        node(merge, 2, 2000, sieve);
+        node(merge, 3, 1000, read);
+        Counted loop = make.get();
+        Check.only(loop, 1, 2, 6);
+        Check.due("plan", loop.plan(5, 0, NONE), 4);
+        node(loop, 0, 1500 + 500 + 500_000 + 3000, 6, 3, 5, 0, NONE, 4, 4, 1);
+        node(loop, 1, 2000, sieve);
+        node(loop, 2, 1000, read);
+        node(loop, 3, 1000, 1, 1, 0, NONE, 4, NONE, 1, 0);
+        Counted ship = make.get();
+        Check.only(ship, 1, 10, 11);
+        Check.due("plan", ship.plan(0, 3, 2), 3);
+        node(ship, 0, 4000 + 11_000, 10, 3, 0, 3, 2, NONE, 3, 0);
+        node(ship, 1, 4000, 11, 2, 0, NONE, 2, NONE, 2, 0);
+        node(ship, 2, 1000, 1, 1, 0, NONE, NONE, NONE, 1, 0);
     }
 
     @Sentence(in = "Promise 34", says = "5 the PLACE at which a PAIR or SUM is done (others: NONE)")

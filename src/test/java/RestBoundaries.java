@@ -266,6 +266,10 @@ final class RestBoundaries {
         Check.alike("restored: " + what, () -> {
             Counted m = ahead.get();
             change.on(m);
+            // Asked for, so that nothing that is reckoned once and kept comes through restore().
+            m.cost(2, 2, 4);
+            m.group(2, 1);
+            m.next(3);
             Check.due("restore", m.restore(), m.status(1));
             return m;
         }, ahead);
@@ -285,13 +289,73 @@ final class RestBoundaries {
         restored("a TABLE", m -> m.table(1, 1, 0, 0));
         restored("DISTINCT", m -> m.distinct(0, 3) + m.distinct(3, 999_999));
         restored("EXPRESSIONS", m -> m.tally(2, 0) + m.join(1, 1, 0));
-        restored("GROUPS that MERGE", m -> m.same(3, 2));
+        restored("GROUPS that MERGE", m -> m.same(0, 2));
+        restored("GROUPS that MERGE", m -> m.same(7, 1));
+        restored("all GROUPS that can", m -> m.same(0, 2) + m.same(5, 0) + m.same(7, 1));
         restored("FIRINGS", m -> m.explore(7));
         restored("all FIRINGS", m -> m.explore(200));
         restored("KINDS", m -> m.allow(4, false) + m.allow(1, false));
         restored("SEED", m -> m.seed(99));
         restored("DEALS", m -> m.deal(20));
         restored("a TEXT", m -> m.read("tally 1(keep 3(scan 1))") * 0 + m.row(7, 0, 0) + m.show(7, NONE) + m.read(1));
+    }
+
+    @Sentence(in = "Promise 43", says = "All is as THE IMAGE has it; SHELVES")
+    static void restored_from_the_first_to_the_64th() {
+        // 64 EXPRESSIONS, each merged with the next and FIRED with it, then as they were.
+        Check.Make ahead = () -> {
+            Counted m = Check.chain(62);
+            m.join(3, 61, 0);
+            m.half(3, 62, 1);
+            m.image();
+            return m;
+        };
+        Check.alike("all that MERGE", () -> {
+            Counted m = ahead.get();
+            for (int g = 63; g > 0; g -= 2) {
+                m.same(g, g - 1);
+            }
+            m.explore(200);
+            m.cost(0, 1, 1);
+            Check.due("restore", m.restore(), 64);
+            return m;
+        }, ahead);
+        // FIRINGS of the last ones are FIRINGS again.
+        Counted m = Check.chain(61);
+        m.half(0, 60, 0);
+        m.half(1, 61, 0);
+        m.half(2, 0, 0);
+        m.image();
+        int first = 0;
+        int last = 0;
+        for (int round = 0; round < 3; round++) {
+            int fired = m.explore(200);
+            first = round == 0 ? fired : first;
+            last = fired;
+            Check.due("restore", m.restore(), 64);
+        }
+        Check.due("as many again", last, first);
+        Counted two = Check.scanned();
+        for (int p = 0; p < 8; p++) {
+            two.same(0, two.keep(p, 0));
+        }
+        for (int c = 0; c < 4; c++) {
+            two.same(0, two.half(c, 0, 0));
+        }
+        two.image();
+        // PASS 56, ONCE 8, SINK 32, SWAP 16.
+        for (int round = 0; round < 3; round++) {
+            Check.due("explore", two.explore(200), 112);
+            Check.due("fired SWAP", two.fired(6), 16);
+            Check.due("none more", two.explore(1), 0);
+            two.restore();
+            Check.due("none FIRED", two.status(4), 0);
+        }
+        Check.due("explore but the last", two.explore(111), 111);
+        two.image();
+        Check.due("the last", two.explore(200), 1);
+        two.restore();
+        Check.due("the last again", two.explore(200), 1);
     }
 
     @Sentence(in = "Promise 42", says = "THE IMAGE of all but SHELVES (and THE IMAGE, THE PLAN, REFUSALS, the FAULT, THE TRACE) is taken")
@@ -385,6 +449,16 @@ final class RestBoundaries {
             Check.due("its element", m.element(7, 2), 9);
             Check.fill(m, 8);
             Check.due("NOTHING it stays", m.holds(6), NONE);
+        }
+        for (int s = 0; s < 8; s++) {
+            for (int e = 2; e <= 5; e++) {
+                Counted m = Check.chain(4);
+                m.image();
+                Check.fill(m, 6);
+                m.show(s, e);
+                Check.due("restore", m.restore(), 4);
+                Check.due("SHELF " + s + " with EXPRESSION " + e, m.holds(s), e < 4 ? e : NONE);
+            }
         }
         // Of the same number another EXPRESSION; one that was GONE is not.
         Counted m = Check.scanned();

@@ -147,6 +147,8 @@ final class ShelfBoundaries {
             Check.due("set of the last of " + n, m.set(0, n - 1, 5), n == 0 ? -5 : 1);
             Check.due("set behind the last of " + n, m.set(0, n, 5), -5);
             Check.due("the last of " + n, m.element(0, n - 1), n == 0 ? 0 : 5);
+            Check.due("behind the last of " + n, m.element(0, n), 0);
+            Check.due("ahead of the first of " + n, m.element(0, -1), 0);
         }
         Check.refused("161", Counted::new, m -> m.row(0, 3, 161), -7);
     }
@@ -227,6 +229,8 @@ final class ShelfBoundaries {
     @Sentence(in = "Promise 3", says = "-1;")
     static void set_in_no_shelf() {
         Check.beyond("set in SHELF", ShelfBoundaries::shelved, 0, 7, (m, s) -> m.set(s, 0, 3), -1);
+        Check.refused("-1 ahead of -5", ShelfBoundaries::shelved, m -> m.set(8, -1, 3), -1);
+        Check.refused("-1 ahead of -5", ShelfBoundaries::shelved, m -> m.set(-1, 999, 3), -1);
         Check.taken("set in SHELF 0", ShelfBoundaries::shelved, m -> m.set(0, 0, 3), 1);
         Check.taken("set in SHELF 7", ShelfBoundaries::shelved, m -> m.row(7, 0, 1) + m.set(7, 0, 3), 2);
     }
@@ -305,6 +309,10 @@ final class ShelfBoundaries {
         Check.refused("from one to itself", ShelfBoundaries::shelved, m -> m.copy(3, 3, 0, 0, 0), -2);
         Check.refused("-2 ahead of -3", ShelfBoundaries::shelved, m -> m.copy(3, 5, 0, 0, 1), -2);
         Check.refused("-2 ahead of -3", ShelfBoundaries::shelved, m -> m.copy(5, 3, 0, 0, 1), -2);
+        Check.refused("-2 ahead of -4", ShelfBoundaries::shelved, m -> m.copy(3, 0, 0, 0, -1), -2);
+        Check.refused("-2 ahead of -4", ShelfBoundaries::shelved, m -> m.copy(0, 3, 0, 0, -1), -2);
+        Check.refused("-2 ahead of -5", ShelfBoundaries::shelved, m -> m.copy(0, 3, -1, 0, 1), -2);
+        Check.refused("-2 ahead of -5", ShelfBoundaries::shelved, m -> m.copy(3, 0, 0, 9, 1), -2);
         Check.refused("a ROW where an EXPRESSION is wanted", ShelfBoundaries::shelved, m -> m.says(0, 0), -2);
         Check.refused("an EXPRESSION where a ROW is wanted", ShelfBoundaries::shelved, m -> m.spell(3), -2);
         Check.refused("an EXPRESSION where a ROW is wanted", ShelfBoundaries::shelved, m -> m.read(3), -2);

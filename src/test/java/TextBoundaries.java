@@ -128,6 +128,20 @@ final class TextBoundaries {
             fault(text.substring(0, i) + "\0" + text.substring(i), i);
             fault(text.substring(0, i) + (char) (text.charAt(i) ^ 32) + text.substring(i + 1), i);
         }
+        // At a first letter five may stand, at a digit those of its kind, at all others just one.
+        for (int i = 0; i < text.length(); i++) {
+            boolean first = i == 0 || "(,".indexOf(text.charAt(i - 1)) >= 0;
+            boolean digit = Character.isDigit(text.charAt(i));
+            for (char other : "sktjhcaneplyoif 0123456789(),".toCharArray()) {
+                boolean may = other == text.charAt(i) || first && "sktjh".indexOf(other) >= 0
+                    || digit && Character.isDigit(other);
+                if (!may) {
+                    fault(text.substring(0, i) + other + text.substring(i + 1), i);
+                }
+            }
+        }
+        fault("s(an 0", 1);
+        fault("keep 1(s(an 0)", 8);
         fault(text + "x", text.length());
         fault(text + ")", text.length());
         fault(text + ",", text.length());

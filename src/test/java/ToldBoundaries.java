@@ -64,6 +64,63 @@ final class ToldBoundaries {
         }
     }
 
+    /** 64 EXPRESSIONS in fewer GROUPS: TURNS bring no GROUP. */
+    private static Counted filledByTurns(int expressions) {
+        Counted m = new Counted();
+        m.table(10, 15, NONE, 4);
+        m.table(10, 15, NONE, 4);
+        m.table(10, 15, NONE, 4);
+        m.scan(0);
+        m.scan(1);
+        m.join(0, 0, 1);
+        m.join(1, 0, 1);
+        m.explore(2);
+        Check.fill(m, expressions);
+        return m;
+    }
+
+    @Sentence(in = "Terms", says = "EXPRESSIONS have numbers, from 0 on, 64 at most")
+    static void sixty_four_though_groups_are_fewer() {
+        Check.due("GROUPS ever made", filledByTurns(64).status(9), 62);
+        Check.Call[] tells = {m -> m.scan(2), m -> m.keep(7, 0), m -> m.tally(3, 0), m -> m.join(3, 0, 0), m -> m.half(3, 0, 0)};
+        for (Check.Call tell : tells) {
+            Check.taken("the 64th", () -> filledByTurns(63), tell, 61);
+            Check.taken("its number", () -> filledByTurns(63), m -> tell.on(m) * 0 + m.expression(63, 4), 61);
+            Check.refused("the 65th", () -> filledByTurns(64), tell, -7);
+        }
+        Check.refused("read", () -> {
+            Counted m = filledByTurns(64);
+            m.text(7, 0, "scan 2");
+            return m;
+        }, m -> m.read(7), -7);
+        Check.refused("read", () -> {
+            Counted m = filledByTurns(63);
+            m.text(7, 0, "keep 0(scan 2)");
+            return m;
+        }, m -> m.read(7), -7);
+        Counted deal = filledByTurns(64);
+        Check.due("deal", deal.deal(20), 0);
+        Check.due("GROUPS ever made", deal.status(9), 62);
+        Counted last = filledByTurns(63);
+        Check.due("deal", last.deal(20), 1);
+        Check.due("GROUPS ever made", last.status(9), 62);
+        // A TEXT without room leaves nothing in what is made next, a TURN's EXPRESSION in a GROUP that is there.
+        Counted m = new Counted();
+        m.table(10, 15, NONE, 4);
+        m.table(10, 15, NONE, 4);
+        m.scan(0);
+        m.scan(1);
+        m.join(0, 0, 1);
+        Check.fill(m, 62);
+        Check.due("read", m.read("keep 7(keep 6(keep 5(scan 0)))"), -7);
+        Check.due("TURN", m.explore(1), 1);
+        Check.due("how many", m.group(2, 0), 2);
+        Check.due("the 64th", m.keep(7, 0), 62);
+        Check.due("alone in its GROUP", m.group(62, 0), 1);
+        Check.due("its number", m.group(62, 3), 63);
+        Check.due("GROUP of the 63rd", m.expression(62, 4), 2);
+    }
+
     @Sentence(in = "Terms", says = "None is of KIND 0 or 2 itself.")
     static void none_is_of_kind_0_or_2() {
         Counted m = two();
