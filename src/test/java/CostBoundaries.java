@@ -882,6 +882,13 @@ final class CostBoundaries {
             m.distinct(0, 9);
             return m;
         }, m -> m.worth(2, NONE, NONE, MERGE), 1);
+        // For the DEMAND itself: in ORDER 0 MERGE is 48, a SORT of the HASH 88; in any ORDER HASH is 48 too.
+        Check.taken("in ORDER 0", () -> eight(0, ALLOWABLE), m -> m.worth(2, 0, NONE, MERGE), 40);
+        Check.taken("in any ORDER", () -> eight(0, ALLOWABLE), m -> m.worth(2, NONE, NONE, MERGE), 0);
+        Check.taken("in ORDER 0", () -> eight(0, ALLOWABLE), m -> m.worth(2, 0, NONE, SORT), 0);
+        Check.taken("in ORDER 1", () -> eight(0, ALLOWABLE), m -> m.worth(2, 1, NONE, SORT), NONE);
+        Check.taken("at PLACE 3", () -> eight(0, ALLOWABLE), m -> m.worth(0, NONE, 3, SHIP), NONE);
+        Check.taken("at PLACE 4", () -> eight(0, ALLOWABLE), m -> m.worth(0, NONE, 4, SHIP), 0);
         Check.alike("all is ALLOWED as it was", () -> {
             Counted m = Check.busy();
             for (int kind : ALLOWABLE) {

@@ -178,6 +178,70 @@ final class GroupBoundaries {
         Check.due("GROUPS", one.status(2), 2);
     }
 
+    /** GROUPS 0 to 6, and 9 EXPRESSIONS: two TURNS brought EXPRESSIONS 5 and 6, and no GROUPS. */
+    private static Counted turned() {
+        Counted m = new Counted();
+        m.table(100, 15, NONE, 4);
+        m.table(10, 15, NONE, 4);
+        m.table(7, 15, NONE, 4);
+        m.scan(0);
+        m.scan(1);
+        m.scan(2);
+        m.join(0, 0, 1);
+        m.join(1, 0, 2);
+        m.explore(2);
+        m.keep(1, 3);
+        m.keep(3, 5);
+        return m;
+    }
+
+    @Sentence(in = "Terms", says = "GROUPS have numbers, from 0 on, in the order in which they were made. Each EXPRESSION")
+    static void more_expressions_than_groups() {
+        Counted m = turned();
+        Check.due("EXPRESSIONS", m.status(1), 9);
+        Check.due("GROUPS ever made", m.status(9), 7);
+        Check.due("GROUP of the last", m.expression(8, 4), 6);
+        Check.due("no such GROUP", m.groupOf(7), -1);
+        Check.due("no such GROUP", m.group(8, 0), -5);
+        Check.due("what TURN brought is ALIKE", m.join(0, 1, 0), 3);
+        Check.due("what TURN brought is ALIKE", m.join(1, 2, 0), 4);
+        Check.due("the last is ALIKE", m.keep(3, 5), 6);
+        int[] users = {4, 2, 2, 1, 0, 1, 0};
+        int[] rows = {100, 10, 7, 10, 7, 5, 2};
+        int[] members = {1, 1, 1, 2, 2, 1, 1};
+        // HASH of 100 and 10: 110 reads, 10 + 10 works; inputs 110. The SIEVES read 10, then 5.
+        long[] costs = {100, 10, 7, 240, 107 + 7 + 7 + 107, 250, 255};
+        for (int g = 0; g < 7; g++) {
+            Check.due("users of " + g, m.group(g, 4), users[g]);
+            Check.due("ROWS of " + g, m.group(g, 1), rows[g]);
+            Check.due("members of " + g, m.group(g, 0), members[g]);
+            Check.due("COST of " + g, m.cost(g, NONE, NONE), costs[g]);
+        }
+        Check.due("COST by the JOIN turned", m.costBy(5, NONE, NONE), 110 + 10 + 100 + 110);
+        Check.due("COST by the last", m.costBy(8, NONE, NONE), 255);
+        Check.due("the last, sorted", m.cost(6, 2, 4), 255 + 2 + 2 * 2);
+        Check.due("plan", m.plan(6, 2, 4), 6);
+        Check.due("GROUP of its SIEVE", m.planAt(1, 2), 6);
+        Check.due("TEST of its SIEVE", m.planAt(1, 1), 3);
+        Check.due("TEST of the SIEVE below it", m.planAt(2, 1), 1);
+        Check.due("the 10th", m.half(2, 6, 0), 7);
+        Check.due("plan of it", m.plan(7, NONE, NONE), 7);
+        Check.due("its c", m.planAt(0, 1), 2);
+        Check.due("of a HALF", m.planAt(0, 7), 1);
+        Check.due("trees of both JOINS", m.trees(3, 2), 2);
+        Check.due("trees of the last", m.trees(6, 4), 2);
+        Check.due("next", m.next(0), 5);
+        Check.due("image", m.image(), 10);
+        m.keep(5, 6);
+        m.show(0, 9);
+        m.show(1, 10);
+        Check.due("restore", m.restore(), 10);
+        Check.due("a SHELF with the last", m.holds(0), 9);
+        Check.due("a SHELF with what was behind it", m.holds(1), NONE);
+        Check.due("same", m.same(6, 5), 5);
+        Check.due("COST of both", m.cost(6, NONE, NONE), 250);
+    }
+
     // ---- Terms: ROWS
 
     @Sentence(in = "Terms", says = "ROWS of a GROUP, by its EXPRESSION of least number")

@@ -74,6 +74,30 @@ final class RestBoundaries {
         }
     }
 
+    @Sentence(in = "3. DEMANDS", says = "below how many GROUPS were ever made")
+    static void draws_below_groups_though_expressions_are_more() {
+        for (int seed = -20; seed <= 20; seed++) {
+            // Two GROUPS and a third, whose JOIN is turned: four EXPRESSIONS.
+            Counted m = new Counted();
+            m.table(10, 15, NONE, 4);
+            m.table(10, 15, NONE, 4);
+            m.scan(0);
+            m.scan(1);
+            m.join(0, 0, 1);
+            m.explore(1);
+            m.seed(seed * 53_777_777);
+            Draws draws = new Draws(seed * 53_777_777);
+            int c = draws.below(4);
+            int x = draws.below(3);
+            int y = draws.below(3);
+            boolean there = c == 0 && x + y == 1;
+            Check.due("deal", m.deal(1), there ? 0 : 1);
+            Check.due("its x", m.expression(4, 2), there ? -5 : x);
+            Check.due("its y", m.expression(4, 3), there ? -5 : y);
+            Check.due("its GROUP", m.expression(4, 4), there ? -5 : 3);
+        }
+    }
+
     @Sentence(in = "3. DEMANDS", says = "JOIN c of x and y is TOLD, if it may be and there is room.")
     static void dealt_if_it_may_be_and_there_is_room() {
         // Of COLUMN 0 alone: a JOIN by 0 may be, by 1 to 3 not.
