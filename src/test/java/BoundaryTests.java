@@ -68,6 +68,7 @@ public final class BoundaryTests {
     }
 
     public static void main(String[] args) throws IOException, IllegalAccessException {
+        Deadline.begin();
         String document = Files.exists(DOCUMENT) ? Files.readString(DOCUMENT, StandardCharsets.UTF_8) : "";
         Set<String> seen = new TreeSet<>();
         int failed = 0;

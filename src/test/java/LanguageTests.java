@@ -232,6 +232,7 @@ public final class LanguageTests {
     }
 
     public static void main(String[] args) throws Exception {
+        Deadline.begin();
         String source = Files.readString(Path.of(SOURCE), StandardCharsets.UTF_8);
         String bare = source.replaceAll("(?s)/\\*.*?\\*/", "").replaceAll("//[^\n]*", "")
             .replaceAll("\"(\\\\.|[^\"\\\\])*\"", "\"\"").replaceAll("'(\\\\.|[^'\\\\])'", "' '");

@@ -1294,6 +1294,9 @@ public final class ModelTests {
     }
 
     public static void main(String[] args) {
+        if (args.length == 0) {
+            Deadline.begin();
+        }
         int[] every = new int[38];
         for (int i = 0; i < every.length; i++) every[i] = i;
         // Telling, merging and rules alone, then with what they cost.

@@ -1189,6 +1189,7 @@ public final class PromiseTests {
     }
 
     public static void main(String[] args) {
+        Deadline.begin();
         newObject();
         rows();
         copies();
