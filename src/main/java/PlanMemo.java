@@ -925,7 +925,7 @@ public final class PlanMemo {
 
         /** The first EXPRESSION of a GROUP from a number on; how many there are, if there is none. */
         int memberFrom(int g, int from) {
-            long rest = from < EXPRESSIONS ? members[g] >>> from : 0;
+            long rest = isGroup(g) && from >= 0 && from < EXPRESSIONS ? members[g] >>> from : 0;
             return rest == 0 ? expressions : from + Long.bitCount((rest & -rest) - 1);
         }
 
@@ -1948,7 +1948,7 @@ public final class PlanMemo {
                         return fault;
                     }
                     if (open == 0) {
-                        return at == row.size ? NONE : at;
+                        return at == shelf.size ? NONE : at;
                     }
                 }
             }
@@ -1962,7 +1962,7 @@ public final class PlanMemo {
         /** Reads a word, a blank and a digit. */
         private boolean beginOne() {
             int from = at;
-            int k = kindBy(row.letterAt(at));
+            int k = kindBy(letter());
             if (k == NONE || open >= PARTS || parts >= PARTS) {
                 return false;
             }
@@ -1972,7 +1972,7 @@ public final class PlanMemo {
                     return false;
                 }
             }
-            int digit = row.letterAt(at) - '0';
+            int digit = letter() - '0';
             if (digit < 0 || digit >= digitsOf(k)) {
                 return false;
             }
@@ -1985,8 +1985,13 @@ public final class PlanMemo {
             return true;
         }
 
-        private boolean take(int letter) {
-            if (row.letterAt(at) != letter) {
+        /** The element that is to be read next; NONE, which is no letter, where there is none. */
+        private int letter() {
+            return row == null ? NONE : row.letterAt(at);
+        }
+
+        private boolean take(int wanted) {
+            if (letter() != wanted) {
                 return false;
             }
             at++;

@@ -906,7 +906,7 @@ final class CostBoundaries {
 
     // ---- promises 38 and 39
 
-    @Sentence(in = "Promise 38", says = "-1 no such KIND (0 to 11);")
+    @Sentence(in = "Promise 38", says = "-1 no such KIND (0 to 11); -6.")
     static void price_of_no_kind() {
         Check.edges("price of", Check::busy, 0, 11, (m, kind) -> m.price(kind, 1, 2, 3), -1);
         Check.refused("-1 ahead of -6", Check::busy, m -> m.price(12, -1, 0, 0), -1);

@@ -278,7 +278,7 @@ final class PlanBoundaries {
         Check.refused("no PLAN", PlanBoundaries::joined, m -> m.planAt(0, 0), -5);
     }
 
-    @Sentence(in = "Promise 34", says = "0 KIND of WAY, 1 t, p or c, or the ORDER of a SORT, the PLACE of a SHIP, 2 GROUP, "
+    @Sentence(in = "Promise 34", says = "Of a NODE: 0 KIND of WAY, 1 t, p or c, or the ORDER of a SORT, the PLACE of a SHIP, 2 GROUP, "
         + "3 ORDER, 4 PLACE of its DEMAND")
     static void facts_of_each_kind_of_way() {
         Check.Make make = () -> {

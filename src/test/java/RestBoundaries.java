@@ -611,7 +611,7 @@ final class RestBoundaries {
         }
     }
 
-    @Sentence(in = "REFUSALS", says = "the call answers the number; nothing changes but how many there were")
+    @Sentence(in = "REFUSALS", says = "REFUSALS (the call answers the number; nothing changes but how many there were")
     static void answers_of_none_are_no_refusals() {
         Check.Call[] calls = {m -> m.element(99, 99), m -> m.holds(99), m -> m.show(0, NONE), m -> m.fault(), m -> m.next(0),
             m -> m.cost(0, 3, 3), m -> m.costBy(0, 3, 3), m -> m.within(0, 3, 3), m -> m.where(0, 3), m -> m.worth(0, 3, 3, 1),

@@ -27,7 +27,7 @@ final class ShelfBoundaries {
         Check.due("set behind the last", m.set(s, elements.length, 1), -5);
     }
 
-    @Sentence(in = "What it is", says = "An object is used for at most 512 calls after it has been made")
+    @Sentence(in = "What it is", says = "An object is used for at most 512 calls after it has been made; what later calls answer is free.")
     static void up_to_the_512th_call() {
         Counted refused = new Counted();
         for (int i = 0; i < 511; i++) {
@@ -382,7 +382,8 @@ final class ShelfBoundaries {
         Check.due("copy of 161", full.copy(0, 1, 0, 0, 161), -5);
     }
 
-    @Sentence(in = "Promise 4", says = "Elements i, i + 1, .. of the ROW in SHELF p, n of them, come to elements j, j + 1, .. of that in q")
+    @Sentence(in = "Promise 4", says = "Elements i, i + 1, .. of the ROW in SHELF p, n of them, come to elements j, j + 1, .. of that in q "
+        + "(as they were ahead): 1.")
     static void copy_of_so_many() {
         Counted m = shelved();
         Check.due("copy of none", m.copy(0, 1, 0, 0, 0), 1);

@@ -5,20 +5,29 @@ import java.nio.charset.StandardCharsets;
 import java.nio.file.Files;
 import java.nio.file.Path;
 import java.util.ArrayList;
+import java.util.Arrays;
 import java.util.Comparator;
 import java.util.List;
-import java.util.Set;
-import java.util.TreeSet;
+import java.util.Map;
+import java.util.TreeMap;
+import java.util.regex.Matcher;
+import java.util.regex.Pattern;
 
-/** Runs each test of a sentence that names a boundary, and looks that the document has that sentence. */
-public final class BoundaryTests {
+/**
+ * Runs each test of a sentence, looks that the document has that sentence, and that it has none that no
+ * test is of.
+ */
+public final class SentenceTests {
     private static final int PROMISES = 44;
     private static final Path DOCUMENT = Path.of("../shared/DOC.md");
     private static final Class<?>[] TESTS = {ShelfBoundaries.class, TableBoundaries.class, ToldBoundaries.class,
         GroupBoundaries.class, TextBoundaries.class, RuleBoundaries.class, CostBoundaries.class,
-        PlanBoundaries.class, RestBoundaries.class};
+        PlanBoundaries.class, RestBoundaries.class, TermSentences.class, PromiseSentences.class};
+    // Headings, the lines of the calls, which LanguageTests asks for, and what sets texts apart.
+    private static final Pattern NO_SENTENCE = Pattern.compile("## [^\n]*|==== [23]\\.[^\n]*|`[^`\n]*`:|```(text)?");
+    private static final Pattern WORD = Pattern.compile("[A-Za-z0-9]");
 
-    private BoundaryTests() {
+    private SentenceTests() {
     }
 
     private static String part(String document, String in) {
@@ -42,6 +51,25 @@ public final class BoundaryTests {
         int start = document.indexOf(from);
         int end = start < 0 ? -1 : document.indexOf(to, start + from.length());
         return start < 0 || end < 0 ? "" : document.substring(start, end);
+    }
+
+    /** What of a part of the document no test is of, with a gap where one is. */
+    private static String untested(String part, List<String> quotes) {
+        boolean[] quoted = new boolean[part.length()];
+        for (String quote : quotes) {
+            for (int at = part.indexOf(quote); at >= 0; at = part.indexOf(quote, at + 1)) {
+                Arrays.fill(quoted, at, at + quote.length(), true);
+            }
+        }
+        Matcher aside = NO_SENTENCE.matcher(part);
+        while (aside.find()) {
+            Arrays.fill(quoted, aside.start(), aside.end(), true);
+        }
+        StringBuilder rest = new StringBuilder();
+        for (int i = 0; i < part.length(); i++) {
+            rest.append(quoted[i] ? '\n' : part.charAt(i));
+        }
+        return rest.toString().replaceAll("\\s*\n\\s*", " .. ");
     }
 
     private static List<Method> tests() {
@@ -70,7 +98,7 @@ public final class BoundaryTests {
     public static void main(String[] args) throws IOException, IllegalAccessException {
         Deadline.begin();
         String document = Files.exists(DOCUMENT) ? Files.readString(DOCUMENT, StandardCharsets.UTF_8) : "";
-        Set<String> seen = new TreeSet<>();
+        Map<String, List<String>> quotes = new TreeMap<>();
         int failed = 0;
         List<Method> tests = tests();
         for (Method test : tests) {
@@ -80,7 +108,7 @@ public final class BoundaryTests {
             run(test);
             Check.due("the document's part '" + sentence.in() + "' says '" + sentence.says() + "', which",
                 document.isEmpty() || part(document, sentence.in()).contains(sentence.says()), true);
-            seen.add(sentence.in());
+            quotes.computeIfAbsent(sentence.in(), in -> new ArrayList<>()).add(sentence.says());
             if (Check.wrong() != wrong) {
                 failed++;
                 System.out.println("FAILED: " + test.getDeclaringClass().getName() + "." + test.getName() + ", of "
@@ -88,7 +116,12 @@ public final class BoundaryTests {
             }
         }
         for (int promise = 1; promise <= PROMISES; promise++) {
-            Check.due("a test of promise " + promise, seen.contains("Promise " + promise), true);
+            Check.due("a test of promise " + promise, quotes.containsKey("Promise " + promise), true);
+        }
+        for (Map.Entry<String, List<String>> entry : quotes.entrySet()) {
+            String rest = untested(part(document, entry.getKey()), entry.getValue());
+            Check.beginTest();
+            Check.due("a test of what '" + entry.getKey() + "' says in '" + rest + "'", !WORD.matcher(rest).find(), true);
         }
         System.out.println(tests.size() + " sentences, " + Check.asked() + " asked, " + failed + " sentences not held");
         if (failed != 0 || Check.wrong() != 0) {
