@@ -334,4 +334,30 @@ final class Check {
         m.read(1);
         return m;
     }
+
+    /** TABLES by their COLUMNS, each SCANNED: GROUPS 0, 1, .. */
+    static Counted scans(int... columns) {
+        Counted m = new Counted();
+        for (int t = 0; t < columns.length; t++) {
+            m.table(100, columns[t], NONE, 4);
+            m.scan(t);
+        }
+        return m;
+    }
+
+    /** What expression() tells, from 0 on. */
+    static void expression(Counted m, int e, int... facts) {
+        for (int what = 0; what < facts.length; what++) {
+            due("expression(" + e + ", " + what + ")", m.expression(e, what), facts[what]);
+        }
+    }
+
+    /** The NEXT FIRING, and whether there is room for it. */
+    static void firing(Counted m, int e, int rule, int f, int room) {
+        String of = " of (" + e + ", " + rule + ", " + f + ")";
+        due("next(0)" + of, m.next(0), e);
+        due("next(1)" + of, m.next(1), rule);
+        due("next(2)" + of, m.next(2), f);
+        due("next(3)" + of, m.next(3), room);
+    }
 }

@@ -496,9 +496,7 @@ final class PromiseSentences {
 
     private static void seen(Counted m, int[][] told) {
         for (int e = 0; e < told.length; e++) {
-            for (int what = 0; what < told[e].length; what++) {
-                Check.due("expression(" + e + ", " + what + ")", m.expression(e, what), told[e][what]);
-            }
+            Check.expression(m, e, told[e]);
         }
     }
 

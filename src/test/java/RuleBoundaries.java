@@ -5,33 +5,9 @@ final class RuleBoundaries {
     private RuleBoundaries() {
     }
 
-    private static void firing(Counted m, int e, int rule, int f, int room) {
-        String of = " of (" + e + ", " + rule + ", " + f + ")";
-        Check.due("next(0)" + of, m.next(0), e);
-        Check.due("next(1)" + of, m.next(1), rule);
-        Check.due("next(2)" + of, m.next(2), f);
-        Check.due("next(3)" + of, m.next(3), room);
-    }
-
     private static void noFiring(Counted m) {
-        firing(m, NONE, NONE, NONE, NONE);
+        Check.firing(m, NONE, NONE, NONE, NONE);
         Check.due("explore", m.explore(1), 0);
-    }
-
-    private static void expression(Counted m, int e, int... facts) {
-        for (int what = 0; what < facts.length; what++) {
-            Check.due("expression(" + e + ", " + what + ")", m.expression(e, what), facts[what]);
-        }
-    }
-
-    /** TABLES by their COLUMNS, each SCANNED: GROUPS 0, 1, .. */
-    private static Counted scans(int... columns) {
-        Counted m = new Counted();
-        for (int t = 0; t < columns.length; t++) {
-            m.table(100, columns[t], NONE, 4);
-            m.scan(t);
-        }
-        return m;
     }
 
     // ---- 2. RULES: which FIRINGS there are
@@ -39,21 +15,21 @@ final class RuleBoundaries {
     @Sentence(in = "2. RULES", says = "EXPRESSIONS e and f (not GONE), f in the GROUP x of e (RULE 0: no f, NONE).")
     static void not_gone_and_in_the_group_x() {
         // EXPRESSION 4 is GONE by same(): the JOIN of what is merged, and with it no TURN, nor SINK of it.
-        Counted m = scans(15, 15, 15);
+        Counted m = Check.scans(15, 15, 15);
         m.join(0, 0, 2);
         m.join(0, 1, 2);
         m.keep(0, 4);
         m.same(0, 1);
-        expression(m, 4, 5, 0, NONE, NONE, NONE, 1);
-        firing(m, 3, 0, NONE, 1);
+        Check.expression(m, 4, 5, 0, NONE, NONE, NONE, 1);
+        Check.firing(m, 3, 0, NONE, 1);
         Check.due("explore", m.explore(1), 1);
         // Neither (4, 0, NONE) nor (5, 2, 4): the next is with f 3, then with what TURN has brought.
-        firing(m, 5, 2, 3, 1);
+        Check.firing(m, 5, 2, 3, 1);
         Check.due("explore", m.explore(1), 1);
-        firing(m, 5, 2, 6, 1);
+        Check.firing(m, 5, 2, 6, 1);
 
         // f in y of e is none.
-        Counted y = scans(15, 15);
+        Counted y = Check.scans(15, 15);
         y.join(0, 0, 1);
         y.half(0, 0, 1);
         y.half(1, 1, 3);
@@ -61,43 +37,43 @@ final class RuleBoundaries {
         Check.due("fired TURN", y.fired(0), 2);
         noFiring(y);
         // f elsewhere is none.
-        Counted f = scans(15, 15);
+        Counted f = Check.scans(15, 15);
         f.keep(0, 0);
         f.keep(2, 1);
         noFiring(f);
         // RULE 0 has no f.
-        Counted t = scans(15, 15);
+        Counted t = Check.scans(15, 15);
         t.join(2, 0, 1);
-        firing(t, 2, 0, NONE, 1);
+        Check.firing(t, 2, 0, NONE, 1);
     }
 
     @Sentence(in = "2. RULES", says = "What is in [ ] is TOLD first.")
     static void what_is_in_brackets_is_told_first() {
-        Counted m = scans(15);
+        Counted m = Check.scans(15);
         m.keep(2, 0);
         m.keep(5, 1);
         Check.due("explore", m.explore(1), 1);
-        expression(m, 3, 3, 5, 0, NONE, 3);
-        expression(m, 4, 3, 2, 3, NONE, 2);
+        Check.expression(m, 3, 3, 5, 0, NONE, 3);
+        Check.expression(m, 4, 3, 2, 3, NONE, 2);
         Check.due("GROUPS ever made", m.status(9), 4);
-        Counted there = scans(15);
+        Counted there = Check.scans(15);
         there.keep(2, 0);
         there.keep(5, 1);
         there.keep(5, 0);
         Check.due("explore", there.explore(1), 1);
-        expression(there, 4, 3, 2, 3, NONE, 2);
+        Check.expression(there, 4, 3, 2, 3, NONE, 2);
         Check.due("GROUPS ever made", there.status(9), 4);
     }
 
     @Sentence(in = "2. RULES", says = "if one ALIKE is there, its GROUP and that of e MERGE, else it becomes the next EXPRESSION, in the GROUP of e.")
     static void alike_merges_else_the_next() {
-        Counted m = scans(15, 15);
+        Counted m = Check.scans(15, 15);
         m.join(3, 0, 1);
         Check.due("explore", m.explore(1), 1);
-        expression(m, 3, 5, 3, 1, 0, 2, 0);
+        Check.expression(m, 3, 5, 3, 1, 0, 2, 0);
         Check.due("how many", m.group(2, 0), 2);
         Check.due("GROUPS ever made", m.status(9), 3);
-        Counted there = scans(15, 15);
+        Counted there = Check.scans(15, 15);
         there.join(3, 1, 0);
         there.join(3, 0, 1);
         Check.due("explore", there.explore(1), 1);
@@ -105,7 +81,7 @@ final class RuleBoundaries {
         Check.due("EXPRESSIONS", there.status(1), 4);
         Check.due("GONE", there.status(3), 0);
         // The one that is there has the lesser GROUP.
-        Counted less = scans(15, 15);
+        Counted less = Check.scans(15, 15);
         less.keep(4, 0);
         less.keep(6, 2);
         less.keep(4, 1);
@@ -119,57 +95,57 @@ final class RuleBoundaries {
 
     @Sentence(in = "2. RULES", says = "Here JOIN is just that KIND, not HALF, unless HALF is named.")
     static void join_is_not_half() {
-        Counted turn = scans(15, 15);
+        Counted turn = Check.scans(15, 15);
         turn.half(0, 0, 1);
         noFiring(turn);
-        Counted lean = scans(15, 15, 15);
+        Counted lean = Check.scans(15, 15, 15);
         lean.half(0, 0, 1);
         lean.join(0, 3, 2);
         Check.due("TURN alone, there and back", lean.explore(9), 2);
         Check.due("fired TURN", lean.fired(0), 2);
-        Counted leanOfHalf = scans(15, 15, 15);
+        Counted leanOfHalf = Check.scans(15, 15, 15);
         leanOfHalf.join(0, 0, 1);
         leanOfHalf.half(0, 3, 2);
         Check.due("TURN alone, there and back", leanOfHalf.explore(9), 2);
         Check.due("fired TURN", leanOfHalf.fired(0), 2);
-        Counted swap = scans(15, 15, 15);
+        Counted swap = Check.scans(15, 15, 15);
         swap.half(0, 0, 1);
         swap.half(1, 3, 2);
-        firing(swap, 4, 6, 3, 1);
+        Check.firing(swap, 4, 6, 3, 1);
     }
 
     @Sentence(in = "2. RULES", says = "0 TURN: e JOIN c of x and y: JOIN c of y and x.")
     static void turn_of_one_group() {
-        Counted m = scans(15);
+        Counted m = Check.scans(15);
         m.join(1, 0, 0);
-        firing(m, 1, 0, NONE, 1);
+        Check.firing(m, 1, 0, NONE, 1);
         Check.due("explore", m.explore(9), 1);
         Check.due("nothing is new", m.status(1), 2);
         Check.due("fired", m.fired(0), 1);
-        Counted two = scans(15, 15);
+        Counted two = Check.scans(15, 15);
         two.join(1, 1, 0);
         Check.due("there and back", two.explore(9), 2);
         Check.due("one is new", two.status(1), 4 - 0);
-        expression(two, 3, 5, 1, 0, 1, 2);
+        Check.expression(two, 3, 5, 1, 0, 1, 2);
     }
 
     @Sentence(in = "2. RULES", says = "c one of the COLUMNS of v: JOIN d of u and [JOIN c of v and z]")
     static void lean_if_c_is_one_of_v() {
         for (int c = 0; c < 3; c++) {
             // u has COLUMNS 0 and 1, v 0 and 2, z all.
-            Counted m = scans(3, 5, 15);
+            Counted m = Check.scans(3, 5, 15);
             m.half(0, 0, 1);
             m.join(0, 0, 1);
             Check.due("c", m.join(c, 4, 2), 5);
             m.explore(2);
             if (c == 1) {
                 // With f 4, v has not COLUMN 1; with what TURN has made of it, v is GROUP 0, which has.
-                firing(m, 5, 1, 6, 1);
+                Check.firing(m, 5, 1, 6, 1);
             } else {
-                firing(m, 5, 1, 4, 1);
+                Check.firing(m, 5, 1, 4, 1);
                 Check.due("explore", m.explore(1), 1);
-                expression(m, 8, 5, c, 1, 2, 6);
-                expression(m, 9, 5, 0, 0, 6, 5);
+                Check.expression(m, 8, 5, c, 1, 2, 6);
+                Check.expression(m, 9, 5, 0, 0, 6, 5);
             }
         }
     }
@@ -179,7 +155,7 @@ final class RuleBoundaries {
         for (int p = 0; p < 6; p++) {
             for (int kind = 5; kind <= 6; kind++) {
                 // u has COLUMNS 0 and 1, v 1 and 2.
-                Counted m = scans(3, 6);
+                Counted m = Check.scans(3, 6);
                 int g = kind == 5 ? m.join(1, 0, 1) : m.half(1, 0, 1);
                 if (kind == 6 && p >= 4) {
                     Check.due("no such KEEP", m.keep(p, g), -6);
@@ -189,13 +165,13 @@ final class RuleBoundaries {
                 m.explore(kind == 5 ? 1 : 0);
                 int next = kind == 5 ? 5 : 4;
                 if (p < 4) {
-                    firing(m, 3, 2, 2, 1);
+                    Check.firing(m, 3, 2, 2, 1);
                     Check.due("explore", m.explore(1), 1);
-                    expression(m, next, 3, p, 0, NONE, 4);
-                    expression(m, next + 1, kind, 1, 4, 1, 3);
+                    Check.expression(m, next, 3, p, 0, NONE, 4);
+                    Check.expression(m, next + 1, kind, 1, 4, 1, 3);
                 } else {
                     // With the JOIN turned, u is GROUP 1.
-                    firing(m, 3, 2, 4, 1);
+                    Check.firing(m, 3, 2, 4, 1);
                 }
             }
         }
@@ -205,10 +181,10 @@ final class RuleBoundaries {
     static void pass_if_q_is_not_p() {
         for (int p = 0; p < 8; p++) {
             for (int q = 0; q < 8; q++) {
-                Counted m = scans(15);
+                Counted m = Check.scans(15);
                 m.keep(q, 0);
                 m.keep(p, 1);
-                firing(m, 2, p == q ? 4 : 3, 1, 1);
+                Check.firing(m, 2, p == q ? 4 : 3, 1, 1);
                 Check.due("explore", m.explore(1), 1);
                 Check.due("fired PASS", m.fired(3), p == q ? 0 : 1);
                 Check.due("fired ONCE", m.fired(4), p == q ? 1 : 0);
@@ -220,29 +196,29 @@ final class RuleBoundaries {
 
     @Sentence(in = "2. RULES", says = "4 ONCE: e KEEP p and f KEEP p, or e TALLY c and f TALLY c: nothing comes, but the GROUPS of e and f MERGE.")
     static void once_of_the_same_alone() {
-        Counted keep = scans(15);
+        Counted keep = Check.scans(15);
         keep.keep(3, 0);
         keep.keep(3, 1);
-        firing(keep, 2, 4, 1, 1);
+        Check.firing(keep, 2, 4, 1, 1);
         Check.due("explore", keep.explore(1), 1);
         Check.due("merged", keep.groupOf(2), 1);
         Check.due("EXPRESSIONS", keep.status(1), 3);
         // EXPRESSION 2 is in its own x now, and its own f once.
-        firing(keep, 2, 4, 2, 1);
+        Check.firing(keep, 2, 4, 2, 1);
         Check.due("explore", keep.explore(9), 1);
         noFiring(keep);
-        Counted tally = scans(15);
+        Counted tally = Check.scans(15);
         tally.tally(2, 0);
         tally.tally(2, 1);
-        firing(tally, 2, 4, 1, 1);
+        Check.firing(tally, 2, 4, 1, 1);
         Check.due("explore", tally.explore(1), 1);
         Check.due("merged", tally.groupOf(2), 1);
         // A KEEP of a TALLY of the same number, and a TALLY of a KEEP, are none.
-        Counted mixed = scans(15);
+        Counted mixed = Check.scans(15);
         mixed.tally(0, 0);
         mixed.keep(0, 1);
         noFiring(mixed);
-        Counted other = scans(15);
+        Counted other = Check.scans(15);
         other.keep(1, 0);
         other.tally(1, 1);
         noFiring(other);
@@ -252,14 +228,14 @@ final class RuleBoundaries {
     static void under_if_the_column_is_c() {
         for (int c = 0; c < 4; c++) {
             for (int p = 0; p < 8; p++) {
-                Counted m = scans(15);
+                Counted m = Check.scans(15);
                 m.keep(p, 0);
                 m.tally(c, 1);
                 if (p / 2 == c) {
-                    firing(m, 2, 5, 1, 1);
+                    Check.firing(m, 2, 5, 1, 1);
                     Check.due("explore", m.explore(1), 1);
-                    expression(m, 3, 4, c, 0, NONE, 3);
-                    expression(m, 4, 3, p, 3, NONE, 2);
+                    Check.expression(m, 3, 4, c, 0, NONE, 3);
+                    Check.expression(m, 4, 3, p, 3, NONE, 2);
                 }
                 noFiring(m);
             }
@@ -268,14 +244,14 @@ final class RuleBoundaries {
 
     @Sentence(in = "2. RULES", says = "6 SWAP: e HALF c of x and z, f HALF d of u and v: HALF d of [HALF c of u and z] and v.")
     static void swap_of_halves() {
-        Counted m = scans(15, 14, 13);
+        Counted m = Check.scans(15, 14, 13);
         m.half(1, 0, 1);
         m.half(2, 3, 2);
-        firing(m, 4, 6, 3, 1);
+        Check.firing(m, 4, 6, 3, 1);
         Check.due("explore", m.explore(1), 1);
-        expression(m, 5, 6, 2, 0, 2, 5);
-        expression(m, 6, 6, 1, 5, 1, 4);
-        firing(m, 6, 6, 5, 1);
+        Check.expression(m, 5, 6, 2, 0, 2, 5);
+        Check.expression(m, 6, 6, 1, 5, 1, 4);
+        Check.firing(m, 6, 6, 5, 1);
         Check.due("back again", m.explore(9), 1);
         Check.due("nothing is new", m.status(1), 7);
         Check.due("fired SWAP", m.fired(6), 2);
@@ -283,7 +259,7 @@ final class RuleBoundaries {
 
     @Sentence(in = "2. RULES", says = "A FIRING that was FIRED (the same e, RULE, f) never is one again.")
     static void never_again() {
-        Counted m = scans(15, 15, 15);
+        Counted m = Check.scans(15, 15, 15);
         m.keep(0, 0);
         m.keep(2, 3);
         m.join(0, 1, 2);
@@ -299,7 +275,7 @@ final class RuleBoundaries {
         Check.due("EXPRESSIONS", m.status(1), expressions);
         // With another f it is another one.
         m.same(3, 0);
-        firing(m, 3, 4, 3, 1);
+        Check.firing(m, 3, 4, 3, 1);
         m.image();
         int before = m.status(4);
         int more = m.explore(200);
@@ -307,13 +283,13 @@ final class RuleBoundaries {
         Check.due("FIRINGS", m.status(4), before + more);
         noFiring(m);
         m.restore();
-        firing(m, 3, 4, 3, 1);
+        Check.firing(m, 3, 4, 3, 1);
         Check.due("again, as THE IMAGE has them not FIRED", m.explore(200), more);
     }
 
     @Sentence(in = "2. RULES", says = "The NEXT FIRING: the one of least e, of those of least RULE, of those of least f.")
     static void least_e_then_rule_then_f() {
-        Counted m = scans(15);
+        Counted m = Check.scans(15);
         m.keep(0, 0);
         m.keep(2, 0);
         m.join(0, 0, 0);
@@ -322,21 +298,21 @@ final class RuleBoundaries {
         m.same(3, 2);
         m.same(2, 1);
         Check.due("keep", m.keep(0, 1), 5);
-        firing(m, 3, 0, NONE, 1);
+        Check.firing(m, 3, 0, NONE, 1);
         Check.due("TURN", m.explore(1), 1);
-        firing(m, 5, 2, 3, 1);
+        Check.firing(m, 5, 2, 3, 1);
         Check.due("SINK of the JOIN", m.explore(1), 1);
-        expression(m, 6, 5, 0, 1, 0, 5);
-        firing(m, 5, 2, 4, 1);
+        Check.expression(m, 6, 5, 0, 1, 0, 5);
+        Check.firing(m, 5, 2, 4, 1);
         Check.due("SINK of the HALF", m.explore(1), 1);
-        expression(m, 7, 6, 0, 1, 0, 5);
-        firing(m, 5, 3, 2, 1);
+        Check.expression(m, 7, 6, 0, 1, 0, 5);
+        Check.firing(m, 5, 3, 2, 1);
         Check.due("PASS", m.explore(1), 1);
-        expression(m, 8, 3, 2, 1, NONE, 5);
-        firing(m, 5, 4, 1, 1);
+        Check.expression(m, 8, 3, 2, 1, NONE, 5);
+        Check.firing(m, 5, 4, 1, 1);
         Check.due("ONCE", m.explore(1), 1);
         // GROUP 5 went into 1, which is x of EXPRESSION 5: SINK of 6 comes ahead of all of 6, 7 and 8.
-        firing(m, 5, 2, 6, 1);
+        Check.firing(m, 5, 2, 6, 1);
     }
 
     // ---- room
@@ -371,80 +347,80 @@ final class RuleBoundaries {
     @Sentence(in = "2. RULES", says = "it ends ahead of one that there is no room for (all that would be new, with 64 EXPRESSIONS at most)")
     static void ends_ahead_of_one_without_room() {
         room("TURN", () -> {
-            Counted m = scans(15, 15);
+            Counted m = Check.scans(15, 15);
             m.join(0, 0, 1);
             return m;
         }, 1);
         room("TURN that is there", () -> {
-            Counted m = scans(15, 15);
+            Counted m = Check.scans(15, 15);
             m.join(0, 0, 1);
             m.join(0, 1, 0);
             return m;
         }, 0);
         room("LEAN", () -> {
-            Counted m = scans(15, 15, 15);
+            Counted m = Check.scans(15, 15, 15);
             m.join(0, 0, 1);
             m.join(1, 3, 2);
             Check.due("both TURNS", m.explore(2), 2);
-            firing(m, 4, 1, 3, 1);
+            Check.firing(m, 4, 1, 3, 1);
             return m;
         }, 2);
         room("LEAN, with what is in [ ] there", () -> {
-            Counted m = scans(15, 15, 15);
+            Counted m = Check.scans(15, 15, 15);
             m.join(0, 0, 1);
             m.join(1, 3, 2);
             m.explore(2);
             m.join(1, 1, 2);
-            firing(m, 4, 1, 3, 1);
+            Check.firing(m, 4, 1, 3, 1);
             return m;
         }, 1);
         room("PASS", () -> {
-            Counted m = scans(15);
+            Counted m = Check.scans(15);
             m.keep(4, 0);
             m.keep(6, 1);
             return m;
         }, 2);
         room("PASS, with what is in [ ] there", () -> {
-            Counted m = scans(15);
+            Counted m = Check.scans(15);
             m.keep(4, 0);
             m.keep(6, 1);
             m.keep(6, 0);
             return m;
         }, 1);
         room("PASS, with all there", () -> {
-            Counted m = scans(15);
+            Counted m = Check.scans(15);
             m.keep(4, 0);
             m.keep(6, 1);
             m.keep(4, m.keep(6, 0));
             return m;
         }, 0);
         room("SINK", () -> {
-            Counted m = scans(15, 15);
+            Counted m = Check.scans(15, 15);
             m.half(0, 0, 1);
             m.keep(2, 2);
             return m;
         }, 2);
         room("UNDER", () -> {
-            Counted m = scans(15);
+            Counted m = Check.scans(15);
             m.keep(0, 0);
             m.tally(0, 1);
             return m;
         }, 2);
         room("SWAP", () -> {
-            Counted m = scans(15, 15);
+            Counted m = Check.scans(15, 15);
             m.half(0, 0, 1);
             m.half(1, 2, 0);
             return m;
         }, 2);
         room("SWAP, with what is in [ ] there", () -> {
-            Counted m = scans(15, 15);
+            Counted m = Check.scans(15, 15);
             m.half(0, 0, 1);
             m.half(1, 2, 0);
             m.half(1, 0, 0);
             return m;
         }, 1);
         room("ONCE", () -> {
-            Counted m = scans(15);
+            Counted m = Check.scans(15);
             m.keep(0, 0);
             m.keep(0, 1);
             return m;
@@ -454,25 +430,25 @@ final class RuleBoundaries {
     @Sentence(in = "2. RULES", says = "To explore is to fire the NEXT one again and again")
     static void ends_though_others_have_room() {
         // The NEXT one is a PASS of two new ones; a ONCE of greater e, for which there is room, is not fired.
-        Counted m = scans(15);
+        Counted m = Check.scans(15);
         m.keep(0, 0);
         m.keep(2, 1);
         m.tally(0, 0);
         m.tally(0, 3);
         Check.fill(m, 63);
-        firing(m, 2, 3, 1, 0);
+        Check.firing(m, 2, 3, 1, 0);
         Check.due("explore", m.explore(200), 0);
         Check.due("FIRINGS", m.status(4), 0);
         // Fired as long as there is room: 62, then 64.
-        Counted some = scans(15);
+        Counted some = Check.scans(15);
         some.keep(0, 0);
         some.keep(2, 1);
         some.keep(4, 1);
         Check.fill(some, 61);
-        firing(some, 2, 3, 1, 1);
+        Check.firing(some, 2, 3, 1, 1);
         Check.due("explore", some.explore(2), 1);
         Check.due("EXPRESSIONS", some.status(1), 63);
-        firing(some, 3, 3, 1, 0);
+        Check.firing(some, 3, 3, 1, 0);
     }
 
     // ---- promise 23
@@ -562,7 +538,7 @@ final class RuleBoundaries {
         for (int rule = 0; rule < 7; rule++) {
             Check.due("fired(" + rule + ") at first", m.fired(rule), 0);
         }
-        Counted halves = scans(15);
+        Counted halves = Check.scans(15);
         halves.half(0, 0, 0);
         halves.half(0, 1, 0);
         Check.due("explore", halves.explore(200) > 0, true);

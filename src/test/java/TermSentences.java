@@ -5,30 +5,6 @@ final class TermSentences {
     private TermSentences() {
     }
 
-    private static void expression(Counted m, int e, int... facts) {
-        for (int what = 0; what < facts.length; what++) {
-            Check.due("expression(" + e + ", " + what + ")", m.expression(e, what), facts[what]);
-        }
-    }
-
-    private static void firing(Counted m, int e, int rule, int f) {
-        String of = " of (" + e + ", " + rule + ", " + f + ")";
-        Check.due("next(0)" + of, m.next(0), e);
-        Check.due("next(1)" + of, m.next(1), rule);
-        Check.due("next(2)" + of, m.next(2), f);
-        Check.due("next(3)" + of, m.next(3), 1);
-    }
-
-    /** TABLES by their COLUMNS, each SCANNED: GROUPS 0, 1, .. */
-    private static Counted scans(int... columns) {
-        Counted m = new Counted();
-        for (int t = 0; t < columns.length; t++) {
-            m.table(100, columns[t], NONE, 4);
-            m.scan(t);
-        }
-        return m;
-    }
-
     // ---- What it is
 
     @Sentence(in = "What it is", says = "Memo optimiser: tables with columns, orders and places, expressions in groups of equals that merge "
@@ -87,17 +63,17 @@ final class TermSentences {
     @Sentence(in = "Terms", says = "each of a KIND: 0 EXPRESSION; 1 SCAN t, 2 SINGLE, 5 JOIN c of x and y, each under EXPRESSION; 3 KEEP p of x, "
         + "4 TALLY c of x, each under SINGLE; 6 HALF c of x and y, under JOIN. None is of KIND 0 or 2 itself.")
     static void kinds_and_what_they_are_under() {
-        Counted m = scans(15, 15);
+        Counted m = Check.scans(15, 15);
         m.keep(3, 0);
         m.tally(2, 1);
         m.join(1, 0, 1);
         m.half(3, 1, 0);
-        expression(m, 0, 1, 0, NONE, NONE);
-        expression(m, 1, 1, 1, NONE, NONE);
-        expression(m, 2, 3, 3, 0, NONE);
-        expression(m, 3, 4, 2, 1, NONE);
-        expression(m, 4, 5, 1, 0, 1);
-        expression(m, 5, 6, 3, 1, 0);
+        Check.expression(m, 0, 1, 0, NONE, NONE);
+        Check.expression(m, 1, 1, 1, NONE, NONE);
+        Check.expression(m, 2, 3, 3, 0, NONE);
+        Check.expression(m, 3, 4, 2, 1, NONE);
+        Check.expression(m, 4, 5, 1, 0, 1);
+        Check.expression(m, 5, 6, 3, 1, 0);
         int[] above = {NONE, 0, 0, 2, 2, 0, 5};
         for (int e = 0; e < 6; e++) {
             m.show(0, e);
@@ -111,7 +87,7 @@ final class TermSentences {
 
     @Sentence(in = "Terms", says = "t is a TABLE, c a COLUMN, p a TEST (0 to 7; its COLUMN is p / 2, cut), x and y are GROUPS.")
     static void tables_columns_tests_groups() {
-        Counted m = scans(15, 15);
+        Counted m = Check.scans(15, 15);
         Check.due("scan of no TABLE", m.scan(2), -1);
         Check.due("tally of no COLUMN", m.tally(4, 0), -1);
         Check.due("join of no COLUMN", m.join(4, 0, 1), -1);
@@ -124,15 +100,15 @@ final class TermSentences {
         Check.due("keep", m.keep(5, 2), 3);
         Check.due("keep", m.keep(6, 3), 4);
         Check.due("join", m.join(2, 4, 3), 5);
-        expression(m, 4, 3, 5, 2, NONE, 3, 0);
-        expression(m, 5, 3, 6, 3, NONE, 4, 0);
-        expression(m, 6, 5, 2, 4, 3, 5, 0);
+        Check.expression(m, 4, 3, 5, 2, NONE, 3, 0);
+        Check.expression(m, 5, 3, 6, 3, NONE, 4, 0);
+        Check.expression(m, 6, 5, 2, 4, 3, 5, 0);
     }
 
     @Sentence(in = "Terms", says = "COLUMNS of a GROUP (its EXPRESSIONS all have the same): SCAN those of t; KEEP, HALF those of x; TALLY c alone; "
         + "JOIN those of x or y.")
     static void all_of_a_group_have_its_columns() {
-        Counted m = scans(7, 14);
+        Counted m = Check.scans(7, 14);
         m.table(100, 7, NONE, 4);
         m.same(m.scan(2), 0);
         int joined = m.join(1, 0, 1);
@@ -153,7 +129,7 @@ final class TermSentences {
 
     @Sentence(in = "Terms", says = "GROUPS MERGE: all their EXPRESSIONS are in one from then on")
     static void groups_merge_into_one() {
-        Counted m = scans(15, 15, 15);
+        Counted m = Check.scans(15, 15, 15);
         m.keep(0, 0);
         m.keep(1, 1);
         Check.due("same", m.same(4, 2), 2);
@@ -186,13 +162,13 @@ final class TermSentences {
     @Sentence(in = "Terms", says = "A TEXT is read from a ROW of letters: EXPRESSION: scan T")
     static void texts_are_read_from_rows_of_letters() {
         for (int sort = 0; sort <= 3; sort++) {
-            Counted m = scans(15, 15);
+            Counted m = Check.scans(15, 15);
             m.text(3, sort, "tally 2(half 3(keep 7(scan 1),join 0(scan 1,scan 0)))");
             Check.due("read", m.read(3), 5);
-            expression(m, 2, 3, 7, 1, NONE, 2);
-            expression(m, 3, 5, 0, 1, 0, 3);
-            expression(m, 4, 6, 3, 2, 3, 4);
-            expression(m, 5, 4, 2, 4, NONE, 5);
+            Check.expression(m, 2, 3, 7, 1, NONE, 2);
+            Check.expression(m, 3, 5, 0, 1, 0, 3);
+            Check.expression(m, 4, 6, 3, 2, 3, 4);
+            Check.expression(m, 5, 4, 2, 4, NONE, 5);
             m.text(3, sort, "scan 1");
             Check.due("read", m.read(3), 1);
             Check.due("EXPRESSIONS", m.status(1), 6);
@@ -204,24 +180,24 @@ final class TermSentences {
     @Sentence(in = "2. RULES", says = "A FIRING (e, RULE, f): EXPRESSIONS e and f (not GONE)")
     static void a_firing_is_of_expressions() {
         // In GROUP 1 are EXPRESSIONS 1 and 3, in GROUP 2 EXPRESSION 2: e and f are none of GROUPS.
-        Counted m = scans(15);
+        Counted m = Check.scans(15);
         m.keep(0, 0);
         m.keep(1, 1);
         m.same(m.keep(2, 0), 1);
-        firing(m, 2, 3, 1);
+        Check.firing(m, 2, 3, 1, 1);
         Check.due("explore", m.explore(1), 1);
-        firing(m, 2, 3, 3);
+        Check.firing(m, 2, 3, 3, 1);
     }
 
     @Sentence(in = "2. RULES", says = "What comes of it is told for the GROUP of e:")
     static void told_for_the_group_of_e() {
-        Counted m = scans(15);
+        Counted m = Check.scans(15);
         m.keep(0, 0);
         m.keep(1, 1);
         // (2, PASS, 1): KEEP 1 of GROUP 0 is TOLD in a new GROUP, KEEP 0 of that in the GROUP of 2.
         Check.due("explore", m.explore(1), 1);
-        expression(m, 3, 3, 1, 0, NONE, 3, 0);
-        expression(m, 4, 3, 0, 3, NONE, 2, 0);
+        Check.expression(m, 3, 3, 1, 0, NONE, 3, 0);
+        Check.expression(m, 4, 3, 0, 3, NONE, 2, 0);
         int[] members = {1, 1, 2, 1};
         for (int g = 0; g < members.length; g++) {
             Check.due("how many in GROUP " + g, m.group(g, 0), members[g]);
@@ -230,64 +206,64 @@ final class TermSentences {
 
     @Sentence(in = "2. RULES", says = "1 LEAN: e JOIN c of x and z, f JOIN d of u and v, c one of the COLUMNS of v: JOIN d of u and [JOIN c of v and z].")
     static void lean() {
-        Counted m = scans(3, 6, 12);
+        Counted m = Check.scans(3, 6, 12);
         m.join(1, 0, 1);
         m.join(2, 3, 2);
         Check.due("TURN of both", m.explore(2), 2);
-        firing(m, 4, 1, 3);
+        Check.firing(m, 4, 1, 3, 1);
         Check.due("explore", m.explore(1), 1);
-        expression(m, 7, 5, 2, 1, 2, 5, 0);
-        expression(m, 8, 5, 1, 0, 5, 4, 0);
+        Check.expression(m, 7, 5, 2, 1, 2, 5, 0);
+        Check.expression(m, 8, 5, 1, 0, 5, 4, 0);
         Check.due("fired LEAN", m.fired(1), 1);
         // f 5 is JOIN 1 of GROUPS 1 and 0, and COLUMN 2 is none of GROUP 0.
-        firing(m, 5, 0, NONE);
+        Check.firing(m, 5, 0, NONE, 1);
     }
 
     @Sentence(in = "2. RULES", says = "2 SINK: e KEEP p of x, f JOIN or HALF c of u and v, the COLUMN of p one of u: f's KIND, c, of [KEEP p of u] and v.")
     static void sink() {
-        Counted half = scans(3, 6);
+        Counted half = Check.scans(3, 6);
         half.half(1, 0, 1);
         half.keep(0, 2);
-        firing(half, 3, 2, 2);
+        Check.firing(half, 3, 2, 2, 1);
         Check.due("explore", half.explore(1), 1);
-        expression(half, 4, 3, 0, 0, NONE, 4, 0);
-        expression(half, 5, 6, 1, 4, 1, 3, 0);
+        Check.expression(half, 4, 3, 0, 0, NONE, 4, 0);
+        Check.expression(half, 5, 6, 1, 4, 1, 3, 0);
         Check.due("fired SINK", half.fired(2), 1);
-        Counted join = scans(3, 6);
+        Counted join = Check.scans(3, 6);
         join.join(1, 0, 1);
         join.keep(1, 2);
         Check.due("TURN", join.explore(1), 1);
-        firing(join, 3, 2, 2);
+        Check.firing(join, 3, 2, 2, 1);
         Check.due("explore", join.explore(1), 1);
-        expression(join, 5, 3, 1, 0, NONE, 4, 0);
-        expression(join, 6, 5, 1, 4, 1, 3, 0);
+        Check.expression(join, 5, 3, 1, 0, NONE, 4, 0);
+        Check.expression(join, 6, 5, 1, 4, 1, 3, 0);
         // f 4 is JOIN 1 of GROUPS 1 and 0, and COLUMN 0 is none of GROUP 1.
-        firing(join, 4, 0, NONE);
+        Check.firing(join, 4, 0, NONE, 1);
     }
 
     @Sentence(in = "2. RULES", says = "3 PASS: e KEEP p of x, f KEEP q of u, q not p: KEEP q of [KEEP p of u].")
     static void pass() {
-        Counted m = scans(15);
+        Counted m = Check.scans(15);
         m.keep(2, 0);
         m.keep(5, 1);
-        firing(m, 2, 3, 1);
+        Check.firing(m, 2, 3, 1, 1);
         Check.due("explore", m.explore(1), 1);
-        expression(m, 3, 3, 5, 0, NONE, 3, 0);
-        expression(m, 4, 3, 2, 3, NONE, 2, 0);
+        Check.expression(m, 3, 3, 5, 0, NONE, 3, 0);
+        Check.expression(m, 4, 3, 2, 3, NONE, 2, 0);
         Check.due("fired PASS", m.fired(3), 1);
     }
 
     @Sentence(in = "2. RULES", says = "5 UNDER: e TALLY c of x, f KEEP p of u, the COLUMN of p is c: KEEP p of [TALLY c of u].")
     static void under() {
-        Counted m = scans(15);
+        Counted m = Check.scans(15);
         m.keep(2, 0);
         m.tally(1, 1);
         m.keep(4, 0);
         m.tally(1, 3);
-        firing(m, 2, 5, 1);
+        Check.firing(m, 2, 5, 1, 1);
         Check.due("explore", m.explore(1), 1);
-        expression(m, 5, 4, 1, 0, NONE, 5, 0);
-        expression(m, 6, 3, 2, 5, NONE, 2, 0);
+        Check.expression(m, 5, 4, 1, 0, NONE, 5, 0);
+        Check.expression(m, 6, 3, 2, 5, NONE, 2, 0);
         Check.due("fired UNDER", m.fired(5), 1);
         // KEEP 4 is of COLUMN 2, and TALLY 1 of it is none that RULE 5 takes.
         Check.due("no more", m.next(0), NONE);
@@ -377,7 +353,7 @@ final class TermSentences {
         Check.refused("join", () -> Check.chain(64), m -> m.join(0, 0, 0), -7);
         Check.refused("half", () -> Check.chain(64), m -> m.half(0, 0, 0), -7);
         Check.refused("spell", TermSentences::planned, m -> m.spell(0), -7);
-        Counted m = scans(1, 2, 3, 4, 5, 6, 7, 8);
+        Counted m = Check.scans(1, 2, 3, 4, 5, 6, 7, 8);
         Check.due("table", m.table(100, 9, NONE, 4), -7);
         Check.due("TABLES", m.status(0), 8);
     }

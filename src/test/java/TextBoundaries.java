@@ -46,12 +46,6 @@ final class TextBoundaries {
         }
     }
 
-    private static void expression(Counted m, int e, int... facts) {
-        for (int what = 0; what < facts.length; what++) {
-            Check.due("expression(" + e + ", " + what + ")", m.expression(e, what), facts[what]);
-        }
-    }
-
     // ---- Terms
 
     @Sentence(in = "Terms", says = "scan T, or keep P(EXPRESSION), tally C(EXPRESSION), join C(EXPRESSION,EXPRESSION), "
@@ -88,18 +82,18 @@ final class TextBoundaries {
     static void inside_and_to_the_left_first() {
         Counted m = two();
         Check.due("read", m.read("half 1(keep 1(scan 0),tally 1(join 1(scan 0,scan 1)))"), 5);
-        expression(m, 0, 1, 0, NONE, NONE, 0);
-        expression(m, 1, 3, 1, 0, NONE, 1);
-        expression(m, 2, 1, 1, NONE, NONE, 2);
-        expression(m, 3, 5, 1, 0, 2, 3);
-        expression(m, 4, 4, 1, 3, NONE, 4);
-        expression(m, 5, 6, 1, 1, 4, 5);
+        Check.expression(m, 0, 1, 0, NONE, NONE, 0);
+        Check.expression(m, 1, 3, 1, 0, NONE, 1);
+        Check.expression(m, 2, 1, 1, NONE, NONE, 2);
+        Check.expression(m, 3, 5, 1, 0, 2, 3);
+        Check.expression(m, 4, 4, 1, 3, NONE, 4);
+        Check.expression(m, 5, 6, 1, 1, 4, 5);
         Check.due("EXPRESSIONS", m.status(1), 6);
         Counted again = two();
         again.scan(1);
         again.join(1, again.scan(0), 0);
         Check.due("what is there is meant", again.read("keep 4(join 1(scan 0,scan 1))"), 3);
-        expression(again, 3, 3, 4, 2, NONE, 3);
+        Check.expression(again, 3, 3, 4, 2, NONE, 3);
     }
 
     @Sentence(in = "Terms", says = "or nothing. The FAULT")

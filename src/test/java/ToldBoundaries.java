@@ -35,12 +35,6 @@ final class ToldBoundaries {
         return m;
     }
 
-    private static void expression(Counted m, int e, int... facts) {
-        for (int what = 0; what < facts.length; what++) {
-            Check.due("expression(" + e + ", " + what + ")", m.expression(e, what), facts[what]);
-        }
-    }
-
     // ---- Terms
 
     @Sentence(in = "Terms", says = "EXPRESSIONS have numbers, from 0 on, 64 at most, each of a KIND")
@@ -265,9 +259,9 @@ final class ToldBoundaries {
         Check.due("GONE", m.status(3), 1);
         Check.due("EXPRESSIONS", m.status(1), 4);
         Check.due("one that is GONE is not ALIKE", m.keep(3, 0), 4);
-        expression(m, 4, 3, 3, 0, NONE, 4, 0);
+        Check.expression(m, 4, 3, 3, 0, NONE, 4, 0);
         Check.due("tally of a number that went", m.tally(0, 3), 5);
-        expression(m, 5, 4, 0, 0, NONE, 5, 0);
+        Check.expression(m, 5, 4, 0, 0, NONE, 5, 0);
         Check.due("alike to it", m.tally(0, 0), 5);
     }
 
@@ -453,19 +447,19 @@ final class ToldBoundaries {
     @Sentence(in = "Promise 22", says = "x, y, GROUP: NONE if there is none, or it is GONE.")
     static void expression_told() {
         Counted m = withGone();
-        expression(m, 0, 1, 0, NONE, NONE, 0, 0);
-        expression(m, 1, 3, 1, 0, NONE, 0, 0);
-        expression(m, 2, 3, 4, 0, NONE, 2, 0);
-        expression(m, 3, 3, 4, NONE, NONE, NONE, 1);
-        expression(m, 4, 5, 2, 2, 2, 4, 0);
-        expression(m, 5, 6, 3, 2, 0, 5, 0);
-        expression(m, 6, 4, 0, 4, NONE, 6, 0);
+        Check.expression(m, 0, 1, 0, NONE, NONE, 0, 0);
+        Check.expression(m, 1, 3, 1, 0, NONE, 0, 0);
+        Check.expression(m, 2, 3, 4, 0, NONE, 2, 0);
+        Check.expression(m, 3, 3, 4, NONE, NONE, NONE, 1);
+        Check.expression(m, 4, 5, 2, 2, 2, 4, 0);
+        Check.expression(m, 5, 6, 3, 2, 0, 5, 0);
+        Check.expression(m, 6, 4, 0, 4, NONE, 6, 0);
         // A JOIN that is GONE has no y either.
         Counted j = Check.scanned();
         j.keep(1, 0);
         j.join(0, 0, 0);
         j.join(0, 1, 1);
         j.same(0, 1);
-        expression(j, 3, 5, 0, NONE, NONE, NONE, 1);
+        Check.expression(j, 3, 5, 0, NONE, NONE, NONE, 1);
     }
 }
